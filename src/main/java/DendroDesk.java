@@ -574,17 +574,14 @@ public final class DendroDesk {
             add(number);
         }
 
+        /** Adds the digits of a number from 0 on: HEIGHTS begin with a DISTANCE, and never fall below it. */
         private void addNumber(long number) {
-            if (number < 0) {
-                add('-');
-            }
-            long rest = Math.abs(number);
             long unit = 1;
-            for (int digits = 1; digits < 18 && rest / unit >= 10; digits++) {
+            for (int digits = 1; digits < 18 && number / unit >= 10; digits++) {
                 unit *= 10;
             }
             for (int digits = 0; digits < 18 && unit > 0; digits++) {
-                add('0' + (int) (rest / unit % 10));
+                add('0' + (int) (number / unit % 10));
                 unit /= 10;
             }
         }
@@ -619,6 +616,7 @@ public final class DendroDesk {
             return flaw == NONE;
         }
 
+        /** The next number. What can't stand behind it is found later, where a number or the end is due. */
         private int readNumber(Bytes from, int most) {
             skipBlanks(from);
             int start = next;
@@ -631,8 +629,6 @@ public final class DendroDesk {
             int digits = next - start;
             if (digits == 0 || digits > MOST_DIGITS || value > most) {
                 flaw = start;
-            } else if (next < from.length && !isBlank(from.at(next))) {
-                flaw = next;
             }
             return value;
         }

@@ -110,6 +110,10 @@ public final class PointsTest {
         Check.readText(x, "2 6");
         x.measure(0);
         CHECK.due("places behind read", x.distance(0, 1), 0);
+        x.points(20);
+        x.place(19, 500, 500);
+        CHECK.due("measure of twenty", x.measure(2), true);
+        CHECK.due("the last point", x.distance(0, 19), 500);
     }
 
     private static void fraction(DendroDesk x, int kind, int a, int b, String want) {

@@ -78,6 +78,9 @@ public final class TreesTest {
         x.greedy(0, 0);
         CHECK.due("greedy", Check.stepsOf(x, 0), "1+3#2=10@1/1 2+4#3=14@1/1 0+5#4=15@3/1");
         CHECK.due("ties", x.tree(0, 1), 1);
+        x = deskOf("3 9 9 1");
+        x.greedy(0, 0);
+        CHECK.due("several, but not the least", x.tree(0, 1), 0);
         // A fraction that is alike a whole number: (1 + 3) / 2 and 2.
         x = deskOf("4 0 1 3 9 9 2");
         x.greedy(0, 2);
@@ -226,7 +229,7 @@ public final class TreesTest {
         DendroDesk x = deskOf(TWO_PAIRS);
         x.greedy(0, 0);
         int[][] due = {{2, 3, 0}, {3, 2, 0}, {0, 1, 1}, {1, 0, 1}, {0, 2, 2}, {3, 1, 2}, {1, 1, -1}, {0, 4, -1},
-            {4, 0, -1}, {-1, 0, -1}, {0, -1, -1}, {Integer.MIN_VALUE, Integer.MAX_VALUE, -1}};
+            {4, 0, -1}, {-1, 0, -1}, {0, -1, -1}, {32, 1, -1}, {1, 32, -1}, {Integer.MIN_VALUE, Integer.MAX_VALUE, -1}};
         for (int[] d : due) {
             CHECK.due("joins " + d[0] + " " + d[1], x.joins(0, d[0], d[1]), d[2]);
         }
@@ -254,6 +257,10 @@ public final class TreesTest {
         x.greedy(2, 2);
         x.chain(3, 4);
         CHECK.due("alike by other ways", x.same(2, 3), true);
+        x.put(0, 1, 1);
+        x.greedy(2, 2);
+        CHECK.due("another first height", x.same(2, 3), false);
+        x.put(0, 1, 2);
         x.put(0, 2, 3);
         x.put(1, 2, 5);
         x.greedy(2, 2);
