@@ -17,28 +17,28 @@ public final class CutsTest {
         CHECK.finish();
     }
 
-    private static DendroDesk deskOf(String table) {
-        DendroDesk x = new DendroDesk();
-        Check.readText(x, table);
+    private static Desk deskOf(String table) {
+        Desk x = new Desk();
+        x.readText(table);
         x.greedy(0, 2);
         return x;
     }
 
     private static void tree() {
-        CHECK.due("the tree", Check.textOf(deskOf(TABLE), 0), "((0,3):1,((1,4):2,2):7/2):8;");
+        CHECK.due("the tree", deskOf(TABLE).textOf(0), "((0,3):1,((1,4):2,2):7/2):8;");
     }
 
     private static void cut() {
-        DendroDesk x = deskOf(TABLE);
+        Desk x = deskOf(TABLE);
         String[] due = {"0 0 0 0 0", "0 1 1 0 1", "0 1 2 0 1", "0 1 2 0 3", "0 1 2 3 4"};
         for (int k = 5; k >= 1; k--) {
             CHECK.due("cut(0, " + k + ")", x.cut(0, k), k);
-            CHECK.due("labels of cut " + k, Check.labelsOf(x, 0), due[k - 1]);
+            CHECK.due("labels of cut " + k, x.labels(0), due[k - 1]);
         }
         x.cut(0, 3);
         for (int k : new int[] {-1, 0, 6, Integer.MIN_VALUE, Integer.MAX_VALUE}) {
             CHECK.due("cut(0, " + k + ")", x.cut(0, k), -1);
-            CHECK.due("labels stay", Check.labelsOf(x, 0), due[2]);
+            CHECK.due("labels stay", x.labels(0), due[2]);
         }
         CHECK.due("no tree", x.cut(1, 1), -1);
         CHECK.due("no slot", x.cut(-1, 1), -1);
@@ -46,7 +46,7 @@ public final class CutsTest {
     }
 
     private static void cutSmall() {
-        DendroDesk x = new DendroDesk();
+        Desk x = new Desk();
         x.greedy(0, 0);
         CHECK.due("cut of none into 0", x.cut(0, 0), 0);
         CHECK.due("cut of none into 1", x.cut(0, 1), -1);
@@ -66,26 +66,26 @@ public final class CutsTest {
     }
 
     private static void cutAt() {
-        DendroDesk x = deskOf(TABLE);
+        Desk x = deskOf(TABLE);
         int[][] due = {{0, 1, 5}, {999, 1000, 5}, {1, 1, 4}, {199, 100, 4}, {2, 1, 3}, {3, 1, 3}, {349, 100, 3},
             {7, 2, 2}, {3500, 1000, 2}, {3499, 1000, 3}, {799, 100, 2}, {8, 1, 1}, {1000000000, 1, 1},
             {1000000000, 1000, 1}};
         String[] labels = {"", "0 0 0 0 0", "0 1 1 0 1", "0 1 2 0 1", "0 1 2 0 3", "0 1 2 3 4"};
         for (int[] d : due) {
             CHECK.due("cutAt " + d[0] + "/" + d[1], x.cutAt(0, d[0], d[1]), d[2]);
-            CHECK.due("labels of cutAt " + d[0] + "/" + d[1], Check.labelsOf(x, 0), labels[d[2]]);
+            CHECK.due("labels of cutAt " + d[0] + "/" + d[1], x.labels(0), labels[d[2]]);
         }
         x.cut(0, 2);
         int[][] wrong = {{0, -1, 1}, {0, 1000000001, 1}, {0, Integer.MIN_VALUE, 1}, {0, 1, 0}, {0, 1, -1},
             {0, 1, 1001}, {0, 1, Integer.MAX_VALUE}, {1, 1, 1}, {-1, 1, 1}, {4, 1, 1}};
         for (int[] w : wrong) {
             CHECK.due("cutAt " + w[0] + " " + w[1] + " " + w[2], x.cutAt(w[0], w[1], w[2]), -1);
-            CHECK.due("labels stay", Check.labelsOf(x, 0), labels[2]);
+            CHECK.due("labels stay", x.labels(0), labels[2]);
         }
     }
 
     private static void cutAtFractions() {
-        DendroDesk x = new DendroDesk();
+        Desk x = new Desk();
         x.points(20);
         for (int i = 0; i < 20; i++) {
             for (int j = 0; j < i; j++) {
@@ -100,13 +100,13 @@ public final class CutsTest {
     }
 
     private static void label() {
-        DendroDesk x = deskOf(TABLE);
-        CHECK.due("labels ahead of any cut", Check.labelsOf(x, 0), "0 0 0 0 0");
+        Desk x = deskOf(TABLE);
+        CHECK.due("labels ahead of any cut", x.labels(0), "0 0 0 0 0");
         x.greedy(1, 0);
         x.cut(0, 5);
-        CHECK.due("labels of another slot", Check.labelsOf(x, 1), "0 0 0 0 0");
+        CHECK.due("labels of another slot", x.labels(1), "0 0 0 0 0");
         x.points(9);
-        CHECK.due("labels behind points", Check.labelsOf(x, 0), "0 1 2 3 4");
+        CHECK.due("labels behind points", x.labels(0), "0 1 2 3 4");
         for (int i : new int[] {-1, 5, 20, Integer.MIN_VALUE, Integer.MAX_VALUE}) {
             CHECK.due("label(0, " + i + ")", x.label(0, i), -1);
         }
@@ -114,11 +114,11 @@ public final class CutsTest {
         CHECK.due("no slot", x.label(-1, 0), -1);
         CHECK.due("no slot", x.label(4, 0), -1);
         x.chain(0, 1);
-        CHECK.due("labels of a new tree", Check.labelsOf(x, 0), "0 0 0 0 0 0 0 0 0");
+        CHECK.due("labels of a new tree", x.labels(0), "0 0 0 0 0 0 0 0 0");
     }
 
     private static void agree() {
-        DendroDesk x = deskOf(TABLE);
+        Desk x = deskOf(TABLE);
         x.greedy(1, 2);
         CHECK.due("ahead of any cut", x.agree(0, 1), 10);
         x.cut(0, 5);
@@ -144,11 +144,11 @@ public final class CutsTest {
     }
 
     private static void middle() {
-        DendroDesk x = deskOf("5 1 3 2 7 6 4 20 19 17 13");
+        Desk x = deskOf("5 1 3 2 7 6 4 20 19 17 13");
         // On a line: 0, 1, 3, 7, 20.
         CHECK.due("of all", x.middle(0, 4), 2);
         x.cut(0, 2);
-        CHECK.due("labels", Check.labelsOf(x, 0), "0 0 0 0 1");
+        CHECK.due("labels", x.labels(0), "0 0 0 0 1");
         CHECK.due("of several the least", x.middle(0, 3), 1);
         CHECK.due("of one", x.middle(0, 4), 4);
         x.put(0, 1, 0);
@@ -170,7 +170,7 @@ public final class CutsTest {
     }
 
     private static void middleRefused() {
-        DendroDesk x = deskOf(TABLE);
+        Desk x = deskOf(TABLE);
         for (int i : new int[] {-1, 5, 20, Integer.MIN_VALUE, Integer.MAX_VALUE}) {
             CHECK.due("middle(0, " + i + ")", x.middle(0, i), -1);
         }

@@ -59,20 +59,21 @@ public final class FaceTest {
         }
     }
 
+    /** Private or package-visible and static; no private method of the class bears a public one's name. */
     private static void classesInside() {
         TreeSet<String> names = new TreeSet<>();
         for (String method : FACE) {
             names.add(method.substring(method.indexOf(' ') + 1, method.indexOf('(')));
         }
-        Class<?>[] inside = DendroDesk.class.getDeclaredClasses();
-        CHECK.due("at most twelve classes", inside.length < 12, true);
-        for (Class<?> one : inside) {
-            CHECK.due(one + " is static", Modifier.isStatic(one.getModifiers()), true);
-            CHECK.due(one + " is not public", Modifier.isPublic(one.getModifiers()), false);
-            CHECK.due(one + " has few fields", one.getDeclaredFields().length <= 20, true);
-            for (Method method : one.getDeclaredMethods()) {
-                CHECK.due(one + " has no " + method.getName(), names.contains(method.getName()), false);
+        for (Method method : DendroDesk.class.getDeclaredMethods()) {
+            if (Modifier.isPrivate(method.getModifiers())) {
+                CHECK.due("the private " + method.getName(), names.contains(method.getName()), false);
             }
+        }
+        for (Class<?> one : DendroDesk.class.getDeclaredClasses()) {
+            CHECK.due(one + " is static", Modifier.isStatic(one.getModifiers()), true);
+            CHECK.due(one + " is public", Modifier.isPublic(one.getModifiers()), false);
+            CHECK.due(one + " is protected", Modifier.isProtected(one.getModifiers()), false);
         }
     }
 }

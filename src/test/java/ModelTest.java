@@ -2,14 +2,13 @@ import java.util.Random;
 
 /** Holds runs of calls by fixed seeds against the model: all promises together, and that no call ever throws. */
 public final class ModelTest {
-    private static final int CALLS = 512;
     private static final int[] ODD = {
         Integer.MIN_VALUE, Integer.MAX_VALUE, -1000000, -501, -2, -1, 20, 21, 31, 32, 501, 1001, 2400, 2000001,
     };
 
     private final Random random;
     private final Check check;
-    private final DendroDesk x = new DendroDesk();
+    private final Desk x = new Desk();
     private final Model m = new Model();
     private final int greatest;
     private final boolean wild;
@@ -28,7 +27,7 @@ public final class ModelTest {
         for (int run = 0; run < 600; run++) {
             new ModelTest(check, run).mixedRun();
         }
-        for (int run = 1000; run < 1600; run++) {
+        for (int run = 3000; run < 4200; run++) {
             new ModelTest(check, run).treeRun();
         }
         for (int run = 2000; run < 2400; run++) {
@@ -64,7 +63,8 @@ public final class ModelTest {
         if (random.nextBoolean()) {
             fill(random.nextInt(12));
         }
-        for (int call = 0; call < CALLS - 70; call++) {
+        // One turn makes two calls at most.
+        while (x.calls() <= Desk.MOST_CALLS - 2) {
             int kind = random.nextInt(28);
             if (kind < 13) {
                 callPoints(kind);
@@ -204,14 +204,33 @@ public final class ModelTest {
         }
     }
 
-    /** One tree, all of it. */
+    /** One tree: all its STEPS, or its TEXT, or some CUTS, because one object has not calls enough for all. */
     private void treeRun() {
         int n = random.nextInt(21);
-        fill(n);
+        fillByTable(n);
         int kind = random.nextInt(5);
         boolean chained = random.nextBoolean();
         due("grow", chained ? x.chain(0, kind) : x.greedy(0, kind), m.grow(0, kind, chained));
         due("ties", x.tree(0, 1), m.tree(0, 1));
+        if (run % 3 == 0) {
+            lookAtSteps(n);
+        } else if (run % 3 == 1) {
+            lookAtText();
+        } else {
+            lookAtCuts(n);
+        }
+    }
+
+    private void fillByTable(int n) {
+        StringBuilder table = new StringBuilder("" + n);
+        for (int k = 0; k < n * (n - 1) / 2; k++) {
+            table.append(' ').append(random.nextInt(greatest + 1));
+        }
+        m.tape = table.toString();
+        due("read", x.readText(table.toString()), m.read());
+    }
+
+    private void lookAtSteps(int n) {
         for (int k = 0; k < n; k++) {
             for (int what = 0; what < 4; what++) {
                 due("step " + k + " " + what, x.step(0, k, what), m.step(0, k, what));
@@ -220,32 +239,39 @@ public final class ModelTest {
             due("bottom " + k, x.height(0, k, 1), m.height(0, k, 1));
             due("order " + k, x.order(0, k), m.order(0, k));
         }
-        x.text(0);
-        m.text(0);
-        check.due("run " + run + ": text", Check.outText(x), m.out);
-        for (int k = 0; k <= n; k++) {
-            int slot = 0;
+    }
+
+    /** A TEXT may be longer than there are calls left: then all but its first bytes. */
+    private void lookAtText() {
+        due("text", x.text(0), m.text(0));
+        int left = Desk.MOST_CALLS - x.calls();
+        for (int i = Math.max(0, m.out.length() + 1 - left); i <= m.out.length(); i++) {
+            due("out " + i, x.out(i), m.out(i));
+        }
+    }
+
+    private void lookAtCuts(int n) {
+        while (x.calls() + 1 + 2 * n <= Desk.MOST_CALLS) {
+            int k = random.nextInt(n + 1);
             if (random.nextBoolean()) {
-                due("cut " + k, x.cut(slot, k), m.cut(slot, k));
+                due("cut " + k, x.cut(0, k), m.cut(0, k));
             } else {
                 int top = (int) Math.min(1000000000, Math.max(0, m.height(0, Math.min(k, n - 2), 0)));
                 int bottom = (int) Math.min(1000, Math.max(1, m.height(0, Math.min(k, n - 2), 1)));
-                due("cutAt " + top + " " + bottom, x.cutAt(slot, top, bottom), m.cutAt(slot, top, bottom));
+                due("cutAt " + top + " " + bottom, x.cutAt(0, top, bottom), m.cutAt(0, top, bottom));
             }
             for (int i = 0; i < n; i++) {
-                due("label " + i, x.label(slot, i), m.label(slot, i));
-                due("middle " + i, x.middle(slot, i), m.middle(slot, i));
+                due("label " + i, x.label(0, i), m.label(0, i));
+                due("middle " + i, x.middle(0, i), m.middle(0, i));
             }
         }
     }
 
     /** Tables with small damages. */
     private void tableRun() {
-        for (int table = 0; table < 40; table++) {
+        for (int table = 0; table < 25; table++) {
             String text = damagedTable();
-            x.end(0);
-            m.end(0);
-            Check.feedText(x, text, 0);
+            x.tape(text);
             m.tape = text;
             due("read of '" + text + "'", x.read(), m.read());
             due("fault of '" + text + "'", x.fault(), m.fault);

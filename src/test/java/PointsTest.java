@@ -15,7 +15,7 @@ public final class PointsTest {
     }
 
     private static void newObject() {
-        DendroDesk x = new DendroDesk();
+        Desk x = new Desk();
         CHECK.due("distance of a new object", x.distance(0, 0), -1);
         CHECK.due("out of a new object", x.out(0), -1);
         CHECK.due("take of a new object", x.take(), 0);
@@ -24,12 +24,12 @@ public final class PointsTest {
         for (int slot = -1; slot <= 4; slot++) {
             CHECK.due("tree of a new object", x.tree(slot, 0), -1);
         }
-        CHECK.due("table of a new object", Check.tableOf(x), "0");
+        CHECK.due("table of a new object", x.table(), "0");
         CHECK.due("measure without points", x.measure(0), true);
     }
 
     private static void points() {
-        DendroDesk x = new DendroDesk();
+        Desk x = new Desk();
         for (int n : new int[] {0, 1, 2, 19, 20}) {
             CHECK.due("points(" + n + ")", x.points(n), n);
             CHECK.due("last point", x.distance(n - 1, n - 1), n == 0 ? -1 : 0);
@@ -40,16 +40,16 @@ public final class PointsTest {
         x.place(2, 3, 4);
         for (int n : new int[] {-1, 21, Integer.MIN_VALUE, Integer.MAX_VALUE}) {
             CHECK.due("points(" + n + ")", x.points(n), -1);
-            CHECK.due("table behind a refusal", Check.tableOf(x), "3 8 0 0");
+            CHECK.due("table behind a refusal", x.table(), "3 8 0 0");
         }
         x.points(3);
-        CHECK.due("table behind points", Check.tableOf(x), "3 0 0 0");
+        CHECK.due("table behind points", x.table(), "3 0 0 0");
         x.measure(1);
-        CHECK.due("places behind points", Check.tableOf(x), "3 0 0 0");
+        CHECK.due("places behind points", x.table(), "3 0 0 0");
     }
 
     private static void put() {
-        DendroDesk x = new DendroDesk();
+        Desk x = new Desk();
         CHECK.due("put without points", x.put(0, 1, 1), false);
         x.points(3);
         CHECK.due("put", x.put(2, 0, 2000000), true);
@@ -61,11 +61,11 @@ public final class PointsTest {
         for (int[] w : wrong) {
             CHECK.due("put " + w[0] + " " + w[1] + " " + w[2], x.put(w[0], w[1], w[2]), false);
         }
-        CHECK.due("table", Check.tableOf(x), "3 0 2000000 9");
+        CHECK.due("table", x.table(), "3 0 2000000 9");
     }
 
     private static void distance() {
-        DendroDesk x = new DendroDesk();
+        Desk x = new Desk();
         x.points(20);
         x.put(19, 18, 5);
         CHECK.due("distance(18, 19)", x.distance(18, 19), 5);
@@ -78,7 +78,7 @@ public final class PointsTest {
     }
 
     private static void place() {
-        DendroDesk x = new DendroDesk();
+        Desk x = new Desk();
         x.points(2);
         CHECK.due("place", x.place(0, -500, 500), true);
         CHECK.due("place", x.place(1, 500, -500), true);
@@ -93,7 +93,7 @@ public final class PointsTest {
     }
 
     private static void measure() {
-        DendroDesk x = new DendroDesk();
+        Desk x = new Desk();
         x.points(3);
         x.place(0, -1, 2);
         x.place(1, 2, -2);
@@ -101,13 +101,13 @@ public final class PointsTest {
         String[] tables = {"3 25 5 8", "3 7 3 4", "3 4 2 2"};
         for (int how = 0; how < 3; how++) {
             CHECK.due("measure(" + how + ")", x.measure(how), true);
-            CHECK.due("table by measure " + how, Check.tableOf(x), tables[how]);
+            CHECK.due("table by measure " + how, x.table(), tables[how]);
         }
         for (int how : new int[] {-1, 3, Integer.MIN_VALUE, Integer.MAX_VALUE}) {
             CHECK.due("measure(" + how + ")", x.measure(how), false);
-            CHECK.due("table behind a refusal", Check.tableOf(x), tables[2]);
+            CHECK.due("table behind a refusal", x.table(), tables[2]);
         }
-        Check.readText(x, "2 6");
+        x.readText("2 6");
         x.measure(0);
         CHECK.due("places behind read", x.distance(0, 1), 0);
         x.points(20);
@@ -116,7 +116,7 @@ public final class PointsTest {
         CHECK.due("the last point", x.distance(0, 19), 500);
     }
 
-    private static void fraction(DendroDesk x, int kind, int a, int b, String want) {
+    private static void fraction(Desk x, int kind, int a, int b, String want) {
         String got = x.linkage(kind, a, b, 0) + "/" + x.linkage(kind, a, b, 1);
         CHECK.due("linkage " + kind + " of " + a + " and " + b, got, want);
         got = x.linkage(kind, b, a, 0) + "/" + x.linkage(kind, b, a, 1);
@@ -124,8 +124,8 @@ public final class PointsTest {
     }
 
     private static void linkage() {
-        DendroDesk x = new DendroDesk();
-        Check.readText(x, "4 1 5 9 2 6 10");
+        Desk x = new Desk();
+        x.readText("4 1 5 9 2 6 10");
         fraction(x, 0, 3, 12, "2/1");
         fraction(x, 1, 3, 12, "9/1");
         fraction(x, 2, 3, 12, "11/2");
@@ -153,9 +153,9 @@ public final class PointsTest {
     }
 
     private static void linkageRefused() {
-        DendroDesk x = new DendroDesk();
+        Desk x = new Desk();
         CHECK.due("linkage without points", x.linkage(0, 1, 2, 0), -1);
-        Check.readText(x, "4 1 5 9 2 6 10");
+        x.readText("4 1 5 9 2 6 10");
         int[][] wrong = {{-1, 1, 2, 0}, {4, 1, 2, 0}, {0, 1, 2, -1}, {0, 1, 2, 2}, {0, 0, 2, 0}, {0, 2, 0, 0},
             {0, 3, 2, 1}, {0, 16, 1, 0}, {0, 1, -16, 0}, {0, -1, -1, 0}};
         for (int[] w : wrong) {

@@ -25,22 +25,22 @@ public final class TreesTest {
         CHECK.finish();
     }
 
-    private static DendroDesk deskOf(String table) {
-        DendroDesk x = new DendroDesk();
-        Check.readText(x, table);
+    private static Desk deskOf(String table) {
+        Desk x = new Desk();
+        x.readText(table);
         return x;
     }
 
     private static void smallTrees() {
         for (int n = 0; n <= 2; n++) {
-            DendroDesk x = new DendroDesk();
+            Desk x = new Desk();
             x.points(n);
             for (int kind = 0; kind <= 4; kind++) {
                 int steps = n == 2 ? 1 : 0;
                 CHECK.due("greedy of " + n + " points", x.greedy(0, kind), steps);
                 CHECK.due("chain of " + n + " points", x.chain(1, kind), steps);
-                CHECK.due("greedy", Check.factsOf(x, 0), steps + " 0 " + n + " " + kind + " 0");
-                CHECK.due("chain", Check.factsOf(x, 1), steps + " 0 " + n + " " + kind + " 1");
+                CHECK.due("greedy", x.facts(0), steps + " 0 " + n + " " + kind + " 0");
+                CHECK.due("chain", x.facts(1), steps + " 0 " + n + " " + kind + " 1");
                 CHECK.due("same", x.same(0, 1), true);
             }
         }
@@ -55,28 +55,28 @@ public final class TreesTest {
             "0+1#2=3@1/1 2+4#3=7@7/2 3+5#4=15@35/4",
         };
         // d10 1, d20 5, d21 2, d30 9, d31 6, d32 10
-        DendroDesk x = deskOf("4 1 5 2 9 6 10");
+        Desk x = deskOf("4 1 5 2 9 6 10");
         for (int kind = 0; kind <= 4; kind++) {
             CHECK.due("greedy", x.greedy(0, kind), 3);
-            CHECK.due("greedy of linkage " + kind, Check.stepsOf(x, 0), due[kind]);
+            CHECK.due("greedy of linkage " + kind, x.steps(0), due[kind]);
             CHECK.due("chain", x.chain(1, kind), 3);
-            CHECK.due("chain of linkage " + kind, Check.stepsOf(x, 1), due[kind]);
-            CHECK.due("facts", Check.factsOf(x, 0), "3 0 4 " + kind + " 0");
-            CHECK.due("facts", Check.factsOf(x, 1), "3 0 4 " + kind + " 1");
+            CHECK.due("chain of linkage " + kind, x.steps(1), due[kind]);
+            CHECK.due("facts", x.facts(0), "3 0 4 " + kind + " 0");
+            CHECK.due("facts", x.facts(1), "3 0 4 " + kind + " 1");
         }
     }
 
     private static void greedyTies() {
-        DendroDesk x = new DendroDesk();
+        Desk x = new Desk();
         x.points(4);
         for (int kind = 0; kind <= 4; kind++) {
             x.greedy(0, kind);
-            CHECK.due("all alike", Check.stepsOf(x, 0), "0+1#2=3@0/1 2+3#2=12@0/1 4+5#4=15@0/1");
+            CHECK.due("all alike", x.steps(0), "0+1#2=3@0/1 2+3#2=12@0/1 4+5#4=15@0/1");
             CHECK.due("ties", x.tree(0, 1), 2);
         }
         x = deskOf(TIED);
         x.greedy(0, 0);
-        CHECK.due("greedy", Check.stepsOf(x, 0), "1+3#2=10@1/1 2+4#3=14@1/1 0+5#4=15@3/1");
+        CHECK.due("greedy", x.steps(0), "1+3#2=10@1/1 2+4#3=14@1/1 0+5#4=15@3/1");
         CHECK.due("ties", x.tree(0, 1), 1);
         x = deskOf("3 9 9 1");
         x.greedy(0, 0);
@@ -84,44 +84,43 @@ public final class TreesTest {
         // A fraction that is alike a whole number: (1 + 3) / 2 and 2.
         x = deskOf("4 0 1 3 9 9 2");
         x.greedy(0, 2);
-        CHECK.due("greedy", Check.stepsOf(x, 0), "0+1#2=3@0/1 2+3#2=12@2/1 4+5#4=15@11/2");
+        CHECK.due("greedy", x.steps(0), "0+1#2=3@0/1 2+3#2=12@2/1 4+5#4=15@11/2");
         CHECK.due("ties", x.tree(0, 1), 1);
     }
 
     private static void chainTies() {
-        DendroDesk x = new DendroDesk();
+        Desk x = new Desk();
         x.points(4);
         for (int kind = 0; kind <= 4; kind++) {
             x.chain(0, kind);
-            CHECK.due("all alike", Check.stepsOf(x, 0), "0+1#2=3@0/1 2+3#2=12@0/1 4+5#4=15@0/1");
+            CHECK.due("all alike", x.steps(0), "0+1#2=3@0/1 2+3#2=12@0/1 4+5#4=15@0/1");
             CHECK.due("ties", x.tree(0, 1), 4);
         }
         x = deskOf(TIED);
         x.chain(0, 0);
-        CHECK.due("right below", Check.stepsOf(x, 0), "2+3#2=12@1/1 1+4#3=14@1/1 0+5#4=15@3/1");
+        CHECK.due("right below", x.steps(0), "2+3#2=12@1/1 1+4#3=14@1/1 0+5#4=15@3/1");
         CHECK.due("ties", x.tree(0, 1), 1);
         // 0 has 2 and 3 alike near, then 1 has 3 and 4, none of them below: the lesser number.
         x = deskOf("4 9 3 9 3 9 9");
         x.chain(0, 0);
-        CHECK.due("lesser number", Check.stepsOf(x, 0), "0+2#2=5@3/1 3+4#3=13@3/1 1+5#4=15@9/1");
+        CHECK.due("lesser number", x.steps(0), "0+2#2=5@3/1 3+4#3=13@3/1 1+5#4=15@9/1");
         CHECK.due("ties", x.tree(0, 1), 2);
     }
 
     private static void chainOrder() {
-        DendroDesk x = deskOf(TWO_PAIRS);
+        Desk x = deskOf(TWO_PAIRS);
         x.chain(0, 0);
         x.greedy(1, 0);
-        CHECK.due("by heights", Check.stepsOf(x, 0), "2+3#2=12@2/1 0+1#2=3@5/1 4+5#4=15@90/1");
-        CHECK.due("as greedy", Check.stepsOf(x, 1), Check.stepsOf(x, 0));
+        CHECK.due("by heights", x.steps(0), "2+3#2=12@2/1 0+1#2=3@5/1 4+5#4=15@90/1");
+        CHECK.due("as greedy", x.steps(1), x.steps(0));
         // Made with heights 5, 5, 2, 90, 90: those that are alike stay as they were made.
         x = deskOf("6 5 90 90 90 90 5 90 90 90 90 90 90 90 90 2");
         x.chain(0, 1);
-        CHECK.due("alike as made", Check.stepsOf(x, 0),
+        CHECK.due("alike as made", x.steps(0),
                 "4+5#2=48@2/1 0+1#2=3@5/1 2+3#2=12@5/1 7+8#4=15@90/1 6+9#6=63@90/1");
     }
 
-    private static void deepHalves() {
-        DendroDesk x = new DendroDesk();
+    private static void growDeepHalves(Desk x) {
         x.points(20);
         for (int i = 0; i < 20; i++) {
             for (int j = 0; j < i; j++) {
@@ -130,23 +129,29 @@ public final class TreesTest {
         }
         x.greedy(0, 4);
         x.chain(1, 4);
+        x.text(0);
+    }
+
+    private static void deepHalves() {
+        Desk x = View.behind(TreesTest::growDeepHalves);
         for (int slot = 0; slot <= 1; slot++) {
             for (int k = 0; k < 19; k++) {
                 CHECK.due("bottom of step " + k, x.height(slot, k, 1), 1L << k);
                 CHECK.due("top of step " + k, x.height(slot, k, 0), (100000L * (k + 1) << k) + 1);
             }
         }
-        x.text(0);
-        CHECK.due("the text's end", Check.outText(x).endsWith(",19):498073600001/262144;"), true);
         CHECK.due("last point of the order", x.order(0, 19), 19);
+        String text = View.out(TreesTest::growDeepHalves);
+        CHECK.due("the text's end", text.substring(text.length() - 25), ",19):498073600001/262144;");
+        CHECK.due("the text's length", x.text(0), text.length());
     }
 
     private static void refusedTrees() {
-        DendroDesk x = deskOf(TIED);
+        Desk x = deskOf(TIED);
         x.greedy(2, 1);
         x.cut(2, 2);
-        String steps = Check.stepsOf(x, 2);
-        String labels = Check.labelsOf(x, 2);
+        String steps = x.steps(2);
+        String labels = x.labels(2);
         for (int slot : NO_SLOTS) {
             CHECK.due("greedy(" + slot + ", 0)", x.greedy(slot, 0), -1);
             CHECK.due("chain(" + slot + ", 0)", x.chain(slot, 0), -1);
@@ -156,37 +161,37 @@ public final class TreesTest {
             CHECK.due("chain(2, " + kind + ")", x.chain(2, kind), -1);
             CHECK.due("greedy(3, " + kind + ")", x.greedy(3, kind), -1);
         }
-        CHECK.due("facts", Check.factsOf(x, 2), "3 1 4 1 0");
-        CHECK.due("steps", Check.stepsOf(x, 2), steps);
-        CHECK.due("labels", Check.labelsOf(x, 2), labels);
+        CHECK.due("facts", x.facts(2), "3 1 4 1 0");
+        CHECK.due("steps", x.steps(2), steps);
+        CHECK.due("labels", x.labels(2), labels);
         CHECK.due("no tree", x.tree(3, 0), -1);
     }
 
     private static void treeStays() {
-        DendroDesk x = deskOf("3 4 6 8");
+        Desk x = deskOf("3 4 6 8");
         x.greedy(0, 2);
-        String steps = Check.stepsOf(x, 0);
+        String steps = x.steps(0);
         CHECK.due("steps", steps, "0+1#2=3@4/1 2+3#3=7@7/1");
         x.put(0, 1, 2000000);
-        CHECK.due("steps behind put", Check.stepsOf(x, 0), steps);
+        CHECK.due("steps behind put", x.steps(0), steps);
         x.greedy(3, 0);
         x.points(20);
-        CHECK.due("steps behind points", Check.stepsOf(x, 0), steps);
-        CHECK.due("text behind points", Check.textOf(x, 0), "((0,1):4,2):7;");
-        Check.readText(x, "2 9");
-        CHECK.due("steps behind read", Check.stepsOf(x, 0), steps);
+        CHECK.due("steps behind points", x.steps(0), steps);
+        CHECK.due("text behind points", x.textOf(0), "((0,1):4,2):7;");
+        x.readText("2 9");
+        CHECK.due("steps behind read", x.steps(0), steps);
         x.chain(1, 0);
-        CHECK.due("the other slots", Check.stepsOf(x, 0), steps);
+        CHECK.due("the other slots", x.steps(0), steps);
         x.chain(0, 1);
-        CHECK.due("a new tree", Check.stepsOf(x, 0), "0+1#2=3@9/1");
+        CHECK.due("a new tree", x.steps(0), "0+1#2=3@9/1");
         CHECK.due("no step of the old tree", x.step(0, 1, 0), -1);
-        CHECK.due("facts", Check.factsOf(x, 0), "1 0 2 1 1");
+        CHECK.due("facts", x.facts(0), "1 0 2 1 1");
     }
 
     private static void tree() {
-        DendroDesk x = deskOf(TIED);
+        Desk x = deskOf(TIED);
         x.chain(3, 0);
-        CHECK.due("facts", Check.factsOf(x, 3), "3 1 4 0 1");
+        CHECK.due("facts", x.facts(3), "3 1 4 0 1");
         for (int slot : NO_SLOTS) {
             CHECK.due("tree(" + slot + ", 0)", x.tree(slot, 0), -1);
         }
@@ -197,7 +202,7 @@ public final class TreesTest {
     }
 
     private static void step() {
-        DendroDesk x = deskOf(TIED);
+        Desk x = deskOf(TIED);
         x.greedy(1, 0);
         int[] due = {2, 4, 3, 14};
         for (int what = 0; what <= 3; what++) {
@@ -214,7 +219,7 @@ public final class TreesTest {
     }
 
     private static void height() {
-        DendroDesk x = deskOf("3 1 2 2");
+        Desk x = deskOf("3 1 2 2");
         x.greedy(1, 3);
         CHECK.due("top", x.height(1, 1, 0), 7);
         CHECK.due("bottom", x.height(1, 1, 1), 3);
@@ -226,7 +231,7 @@ public final class TreesTest {
     }
 
     private static void joins() {
-        DendroDesk x = deskOf(TWO_PAIRS);
+        Desk x = deskOf(TWO_PAIRS);
         x.greedy(0, 0);
         int[][] due = {{2, 3, 0}, {3, 2, 0}, {0, 1, 1}, {1, 0, 1}, {0, 2, 2}, {3, 1, 2}, {1, 1, -1}, {0, 4, -1},
             {4, 0, -1}, {-1, 0, -1}, {0, -1, -1}, {32, 1, -1}, {1, 32, -1}, {Integer.MIN_VALUE, Integer.MAX_VALUE, -1}};
@@ -240,7 +245,7 @@ public final class TreesTest {
     }
 
     private static void same() {
-        DendroDesk x = deskOf(TIED);
+        Desk x = deskOf(TIED);
         CHECK.due("no trees", x.same(0, 0), false);
         x.greedy(0, 0);
         x.chain(1, 0);
@@ -275,26 +280,26 @@ public final class TreesTest {
     }
 
     private static void text() {
-        DendroDesk x = new DendroDesk();
+        Desk x = new Desk();
         x.write();
         CHECK.due("text without a tree", x.text(0), -1);
         CHECK.due("text without a slot", x.text(4), -1);
         CHECK.due("text without a slot", x.text(-1), -1);
-        CHECK.due("out stays", Check.outText(x), "0");
+        CHECK.due("out stays", x.outText(), "0");
         x.greedy(0, 0);
         CHECK.due("text", x.text(0), 1);
-        CHECK.due("no points", Check.outText(x), ";");
+        CHECK.due("no points", x.outText(), ";");
         x.points(1);
         x.chain(0, 0);
         CHECK.due("text", x.text(0), 2);
-        CHECK.due("one point", Check.outText(x), "0;");
+        CHECK.due("one point", x.outText(), "0;");
         String[][] due = {{"2 0", "(0,1):0;"}, {"3 5 6 1", "(0,(1,2):1):11/2;"}, {"3 5 1 6", "((0,2):1,1):11/2;"},
             {TWO_PAIRS, "((0,1):5,(2,3):2):183/2;"}, {"4 9 3 9 3 9 9", "(((0,2):3,3):6,1):9;"}};
         for (String[] d : due) {
-            Check.readText(x, d[0]);
+            x.readText(d[0]);
             x.greedy(0, 2);
             CHECK.due("text of " + d[0], x.text(0), d[1].length());
-            CHECK.due("text of " + d[0], Check.outText(x), d[1]);
+            CHECK.due("text of " + d[0], x.outText(), d[1]);
         }
         CHECK.due("take of a text", x.take(), due[4][1].length());
         CHECK.due("read of a text", x.read(), -1);
@@ -302,28 +307,28 @@ public final class TreesTest {
         x.points(12);
         x.greedy(3, 0);
         x.text(3);
-        CHECK.due("two digits", Check.outText(x),
+        CHECK.due("two digits", x.outText(),
                 "((((0,1):0,(2,3):0):0,((4,5):0,(6,7):0):0):0,((8,9):0,(10,11):0):0):0;");
     }
 
     private static void order() {
-        DendroDesk x = deskOf("3 5 1 6");
+        Desk x = deskOf("3 5 1 6");
         CHECK.due("no tree", x.order(0, 0), -1);
         x.greedy(0, 0);
-        CHECK.due("order", Check.orderOf(x, 0), "0 2 1");
+        CHECK.due("order", x.order(0), "0 2 1");
         for (int k : new int[] {-1, 3, 20, Integer.MIN_VALUE, Integer.MAX_VALUE}) {
             CHECK.due("order(0, " + k + ")", x.order(0, k), -1);
         }
         CHECK.due("no slot", x.order(-1, 0), -1);
         CHECK.due("no slot", x.order(4, 0), -1);
         // d20 1, d31 2, d40 4, d41 5
-        Check.readText(x, "5 9 1 9 9 2 9 4 5 9 9");
+        x.readText("5 9 1 9 9 2 9 4 5 9 9");
         x.chain(1, 0);
-        CHECK.due("text of a chain", Check.textOf(x, 1), "(((0,2):1,4):4,(1,3):2):5;");
-        CHECK.due("order of a chain", Check.orderOf(x, 1), "0 2 4 1 3");
+        CHECK.due("text of a chain", x.textOf(1), "(((0,2):1,4):4,(1,3):2):5;");
+        CHECK.due("order of a chain", x.order(1), "0 2 4 1 3");
         x.points(1);
         x.greedy(2, 0);
-        CHECK.due("one point", Check.orderOf(x, 2), "0");
+        CHECK.due("one point", x.order(2), "0");
         x.points(0);
         x.greedy(2, 0);
         CHECK.due("no points", x.order(2, 0), -1);
