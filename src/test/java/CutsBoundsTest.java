@@ -112,6 +112,8 @@ public final class CutsBoundsTest {
             s.due("cut(0, n) of " + n, x.cut(0, n), n);
             s.due("cut(0, n + 1) of " + n, x.cut(0, n + 1), -1);
             s.due("the last label of " + n, x.label(0, n - 1), n - 1);
+            x.points(0);
+            s.due("cut(0, n) of " + n + ", no points now", x.cut(0, n), n);
         }
     }
 
@@ -167,7 +169,7 @@ public final class CutsBoundsTest {
         x.greedy(0, 3);
         s.due("the height", x.heightOf(0, 1), "19/3");
         int[][] due = {{19, 3, 1}, {6, 1, 2}, {7, 1, 1}, {6333, 1000, 2}, {6334, 1000, 1}, {6327, 999, 1},
-            {6326, 999, 2}, {38, 6, 1}};
+            {6326, 999, 2}, {38, 6, 1}, {1000000000, 1, 1}, {1000000000, 1000, 1}};
         for (int[] d : due) {
             s.due("cutAt(0, " + d[0] + ", " + d[1] + ")", x.cutAt(0, d[0], d[1]), d[2]);
         }

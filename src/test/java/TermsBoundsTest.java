@@ -453,7 +453,9 @@ public final class TermsBoundsTest {
         s.due("one pair", greedyTies("2 0", 0), 0);
         s.due("three pairs alike, then one", greedyTies("3 0 0 0", 0), 1);
         s.due("two pairs alike, then one", greedyTies("3 1 1 9", 0), 1);
-        s.due("several that are not the least", greedyTies("3 1 9 9", 0), 0);
+        s.due("two pairs alike behind a greater one", greedyTies("3 9 1 1", 0), 1);
+        s.due("several that are not the least, behind it", greedyTies("3 1 9 9", 0), 0);
+        s.due("several that are not the least, ahead of it", greedyTies("3 9 9 1", 0), 0);
         s.due("none alike", greedyTies("3 1 2 3", 0), 0);
         s.due("six pairs, three pairs, one", greedyTies("4 5 5 5 5 5 5", 2), 2);
         s.due("two pairs, then one of three, then one", greedyTies("4 1 9 9 9 9 1", 1), 1);
@@ -494,7 +496,9 @@ public final class TermsBoundsTest {
         s.due("two points", chainTies("2 0", 0), 0);
         s.due("three alike: of 0, and of 1", chainTies("3 5 5 5", 0), 2);
         s.due("none alike", chainTies("3 1 2 3", 0), 0);
-        s.due("several that are not the nearest", chainTies("3 1 9 9", 0), 0);
+        s.due("several that are not the nearest, behind it", chainTies("3 1 9 9", 0), 0);
+        s.due("several that are not the nearest, ahead of it", chainTies("4 9 9 5 1 9 9", 0), 0);
+        s.due("several behind a farther one", chainTies("4 9 3 9 3 9 9", 0), 2);
         s.due("right below counts as one of several", chainTies("4 9 3 9 9 1 1", 0), 1);
         s.due("others than right below", chainTies("4 9 9 9 5 2 2", 0), 1);
         s.due("alike, but of pairs that the chain never asks", chainTies("4 1 9 8 8 9 1", 0), 0);
@@ -531,6 +535,9 @@ public final class TermsBoundsTest {
         // Made as 2 3 at 1, 1 with both at 1: alike, and the second one has the lesser first number.
         s.due("alike with lesser numbers", chainSteps("4 9 3 9 9 1 1", 0),
                 "2+3#2=12@1/1 1+4#3=14@1/1 0+5#4=15@3/1");
+        // The chain 0, 2, 3 makes 2 3 at 5, then the chain 0, 1, 4 makes 1 4 at 5.
+        s.due("alike with greater numbers first", chainSteps("5 7 6 9 9 9 5 9 5 9 9", 1),
+                "2+3#2=12@5/1 1+4#2=18@5/1 0+5#3=13@9/1 6+7#5=31@9/1");
         // Made as 0 1 at 2, 2 with both at 6, 3 4 at 1, 5 with both at 11 / 2.
         s.due("6 and 11 / 2", chainSteps("6 2 6 6 90 90 90 90 90 90 1 90 90 90 5 6", 2),
                 "3+4#2=24@1/1 0+1#2=3@2/1 5+6#3=56@11/2 2+7#3=7@6/1 8+9#6=63@90/1");

@@ -27,6 +27,7 @@ public final class TreesBoundsTest {
         joinsBothAreOne();
         same();
         sameClusters();
+        sameInOrder();
         sameHeights();
         sameOfAsManyPoints();
         sameWithoutTree();
@@ -378,6 +379,18 @@ public final class TreesBoundsTest {
         alike(s, "3 9 1 9", "3 9 1 9", 0, true);
     }
 
+    private static void sameInOrder() {
+        Sentence s = CHECK.sentence("Promise 21", "the same clusters and HEIGHTS, in order");
+        Desk x = deskOf("5 7 6 9 9 9 5 9 5 9 9");
+        x.greedy(0, 1);
+        x.chain(1, 1);
+        s.due("by greedy", x.steps(0), "1+4#2=18@5/1 2+3#2=12@5/1 0+5#3=19@9/1 6+7#5=31@9/1");
+        s.due("by a chain", x.steps(1), "2+3#2=12@5/1 1+4#2=18@5/1 0+5#3=13@9/1 6+7#5=31@9/1");
+        s.due("the same clusters in another order", x.same(0, 1), false);
+        x.chain(2, 1);
+        s.due("the same clusters in the same order", x.same(1, 2), true);
+    }
+
     private static void sameHeights() {
         Sentence s = CHECK.sentence("Promise 21", "the same clusters and HEIGHTS");
         alike(s, "2 5", "2 6", 0, false);
@@ -494,7 +507,11 @@ public final class TreesBoundsTest {
         for (int slot : NO_SLOTS) {
             s.refused("order(" + slot + ", 0)", x -> x.order(slot, 0));
         }
-        Desk x = new Desk();
+        Desk x = View.behind(Sentence::rich);
+        x.points(20);
+        s.due("as many as the desk has, not the tree", x.order(0, 4), -1);
+        x.points(0);
+        s.due("as many as the tree has, not the desk", x.order(0, 3), 3);
         x.greedy(0, 0);
         s.due("order(0, 0) of no points", x.order(0, 0), -1);
         x.points(1);
