@@ -37,9 +37,8 @@ public final class CutsBoundsTest {
         CHECK.finish();
     }
 
-    private static Desk deskOf(String table) {
-        Desk x = new Desk();
-        x.readText(table);
+    private static Desk averaged(String table) {
+        Desk x = Desk.of(table);
         x.greedy(0, 2);
         return x;
     }
@@ -49,7 +48,7 @@ public final class CutsBoundsTest {
     private static void cut() {
         Sentence s = CHECK.sentence("Promise 24", "A SLOT's tree is CUT into k clusters: those that are there behind"
                 + " all STEPS but the last k - 1: k.");
-        Desk x = deskOf(FIVE);
+        Desk x = averaged(FIVE);
         for (int k : new int[] {1, 2, 3, 4, 5, 4, 3, 2, 1, 5, 1}) {
             s.due("cut(0, " + k + ")", x.cut(0, k), k);
             s.due("its labels", x.labels(0), LABELS[k]);
@@ -71,8 +70,7 @@ public final class CutsBoundsTest {
     private static void cutOfChain() {
         Sentence s = CHECK.sentence("Promise 24", "those that are there behind all STEPS but the last k - 1");
         // Made as 0 1 at 5, 2 3 at 2: by their order 2 3 is the first STEP.
-        Desk x = new Desk();
-        x.readText("4 5 90 91 92 93 2");
+        Desk x = Desk.of("4 5 90 91 92 93 2");
         x.chain(0, 0);
         s.due("cut(0, 3)", x.cut(0, 3), 3);
         s.due("its labels", x.labels(0), "0 1 2 2");
@@ -85,7 +83,7 @@ public final class CutsBoundsTest {
 
     private static void cutWithoutTree() {
         Sentence s = CHECK.sentence("Promise 24", "NONE: there is no tree");
-        s.due("cut(2, 1)", View.behind(Sentence::rich).cut(2, 1), 1);
+        s.due("cut(2, 1)", Sentence.richDesk().cut(2, 1), 1);
         s.refused("cut(3, 1)", x -> x.cut(3, 1));
         s.refused("cut(3, 0)", x -> x.cut(3, 0));
         for (int slot : NO_SLOTS) {
@@ -97,11 +95,9 @@ public final class CutsBoundsTest {
 
     private static void cutRange() {
         Sentence s = CHECK.sentence("Promise 24", "or k is not 1 .. its points");
-        s.due("cut(0, 1) of four", View.behind(Sentence::rich).cut(0, 1), 1);
-        s.due("cut(0, 4) of four", View.behind(Sentence::rich).cut(0, 4), 4);
-        for (int k : new int[] {0, -1, 5, 20, LEAST, MOST}) {
-            s.refused("cut(0, " + k + ")", x -> x.cut(0, k));
-        }
+        s.due("cut(0, 1) of four", Sentence.richDesk().cut(0, 1), 1);
+        s.due("cut(0, 4) of four", Sentence.richDesk().cut(0, 4), 4);
+        s.refusedEach("cut(0, %)", (x, k) -> x.cut(0, k), 0, -1, 5, 20, LEAST, MOST);
         for (int n = 1; n <= 20; n++) {
             Desk x = new Desk();
             x.points(n);
@@ -137,7 +133,7 @@ public final class CutsBoundsTest {
     private static void cutAt() {
         Sentence s = CHECK.sentence("Promise 25", "A SLOT's tree is CUT at top / bottom: the clusters that are there"
                 + " behind all STEPS whose HEIGHT is not above that: how many.");
-        Desk x = deskOf(FIVE);
+        Desk x = averaged(FIVE);
         int[][] due = {{0, 1, 5}, {999, 1000, 5}, {1, 1, 4}, {1000, 1000, 4}, {1001, 1000, 4}, {1999, 1000, 4},
             {2, 1, 3}, {3499, 1000, 3}, {7, 2, 2}, {3501, 1000, 2}, {7999, 1000, 2}, {8, 1, 1}, {1000000000, 1, 1}};
         for (int[] d : due) {
@@ -164,8 +160,7 @@ public final class CutsBoundsTest {
     private static void cutAtFractions() {
         Sentence s = CHECK.sentence("Promise 25", "all STEPS whose HEIGHT is not above that");
         // WARD of {0, 1} and 2: (2 4 + 2 6 - 1) / 3
-        Desk x = new Desk();
-        x.readText("3 1 4 6");
+        Desk x = Desk.of("3 1 4 6");
         x.greedy(0, 3);
         s.due("the height", x.heightOf(0, 1), "19/3");
         int[][] due = {{19, 3, 1}, {6, 1, 2}, {7, 1, 1}, {6333, 1000, 2}, {6334, 1000, 1}, {6327, 999, 1},
@@ -191,8 +186,7 @@ public final class CutsBoundsTest {
 
     private static void cutAtAlike() {
         Sentence s = CHECK.sentence("Promise 25", "the clusters that are there behind all STEPS");
-        Desk x = new Desk();
-        x.readText("4 3 9 9 9 9 3");
+        Desk x = Desk.of("4 3 9 9 9 9 3");
         x.chain(0, 0);
         s.due("below two that are alike", x.cutAt(0, 2, 1), 4);
         s.due("at two that are alike", x.cutAt(0, 3, 1), 2);
@@ -205,19 +199,16 @@ public final class CutsBoundsTest {
 
     private static void cutAtWithoutTree() {
         Sentence s = CHECK.sentence("Promise 25", "NONE: there is no tree");
-        s.due("cutAt(2, 2, 1)", View.behind(Sentence::rich).cutAt(2, 2, 1), 3);
-        s.refused("cutAt(3, 1, 1)", x -> x.cutAt(3, 1, 1));
-        for (int slot : NO_SLOTS) {
-            s.refused("cutAt(" + slot + ", 1, 1)", x -> x.cutAt(slot, 1, 1));
-        }
+        s.due("cutAt(2, 2, 1)", Sentence.richDesk().cutAt(2, 2, 1), 3);
+        s.refusedWithoutTree("cutAt(%, 1, 1)", (x, slot) -> x.cutAt(slot, 1, 1));
         s.due("cutAt(0, 0, 1) of a new object", new Desk().cutAt(0, 0, 1), -1);
     }
 
     private static void cutAtTop() {
         Sentence s = CHECK.sentence("Promise 25", "top is not 0 .. 1000000000");
-        s.due("cutAt(0, 0, 1)", View.behind(Sentence::rich).cutAt(0, 0, 1), 4);
-        s.due("cutAt(0, 1000000000, 1)", View.behind(Sentence::rich).cutAt(0, 1000000000, 1), 1);
-        s.due("cutAt(0, 1000000000, 1000)", View.behind(Sentence::rich).cutAt(0, 1000000000, 1000), 1);
+        s.due("cutAt(0, 0, 1)", Sentence.richDesk().cutAt(0, 0, 1), 4);
+        s.due("cutAt(0, 1000000000, 1)", Sentence.richDesk().cutAt(0, 1000000000, 1), 1);
+        s.due("cutAt(0, 1000000000, 1000)", Sentence.richDesk().cutAt(0, 1000000000, 1000), 1);
         for (int top : new int[] {-1, 1000000001, LEAST, MOST}) {
             s.refused("cutAt(0, " + top + ", 1)", x -> x.cutAt(0, top, 1));
             s.refused("cutAt(2, " + top + ", 1000)", x -> x.cutAt(2, top, 1000));
@@ -226,9 +217,9 @@ public final class CutsBoundsTest {
 
     private static void cutAtBottom() {
         Sentence s = CHECK.sentence("Promise 25", "bottom not 1 .. 1000.");
-        s.due("cutAt(0, 2000, 1)", View.behind(Sentence::rich).cutAt(0, 2000, 1), 1);
-        s.due("cutAt(0, 2000, 1000)", View.behind(Sentence::rich).cutAt(0, 2000, 1000), 3);
-        s.due("cutAt(0, 1999, 1000)", View.behind(Sentence::rich).cutAt(0, 1999, 1000), 4);
+        s.due("cutAt(0, 2000, 1)", Sentence.richDesk().cutAt(0, 2000, 1), 1);
+        s.due("cutAt(0, 2000, 1000)", Sentence.richDesk().cutAt(0, 2000, 1000), 3);
+        s.due("cutAt(0, 1999, 1000)", Sentence.richDesk().cutAt(0, 1999, 1000), 4);
         for (int bottom : new int[] {0, -1, 1001, LEAST, MOST}) {
             s.refused("cutAt(0, 2000, " + bottom + ")", x -> x.cutAt(0, 2000, bottom));
             s.refused("cutAt(0, 0, " + bottom + ")", x -> x.cutAt(0, 0, bottom));
@@ -240,7 +231,7 @@ public final class CutsBoundsTest {
     private static void label() {
         Sentence s = CHECK.sentence("Promise 26", "The cluster of a point in the latest CUT of a SLOT's tree: numbered"
                 + " from 0 on by their least points");
-        Desk x = deskOf(FIVE);
+        Desk x = averaged(FIVE);
         x.cut(0, 3);
         s.due("labels of three", x.labels(0), "0 1 2 0 1");
         x.cutAt(0, 7, 2);
@@ -282,15 +273,10 @@ public final class CutsBoundsTest {
 
     private static void labelRefused() {
         Sentence s = CHECK.sentence("Promise 26", "NONE: there is no tree, or no such point of it.");
-        s.due("label(0, 0)", View.behind(Sentence::rich).label(0, 0), 0);
-        s.due("label(0, 3)", View.behind(Sentence::rich).label(0, 3), 1);
-        for (int i : new int[] {-1, 4, 19, 20, LEAST, MOST}) {
-            s.refused("label(0, " + i + ")", x -> x.label(0, i));
-        }
-        s.refused("label(3, 0)", x -> x.label(3, 0));
-        for (int slot : NO_SLOTS) {
-            s.refused("label(" + slot + ", 0)", x -> x.label(slot, 0));
-        }
+        s.due("label(0, 0)", Sentence.richDesk().label(0, 0), 0);
+        s.due("label(0, 3)", Sentence.richDesk().label(0, 3), 1);
+        s.refusedEach("label(0, %)", (x, i) -> x.label(0, i), -1, 4, 19, 20, LEAST, MOST);
+        s.refusedWithoutTree("label(%, 0)", (x, slot) -> x.label(slot, 0));
         Desk x = new Desk();
         x.greedy(0, 0);
         x.points(1);
@@ -305,7 +291,7 @@ public final class CutsBoundsTest {
     private static void agree() {
         Sentence s = CHECK.sentence("Promise 27", "How many pairs of points two SLOTS' latest CUTS tell alike:"
                 + " together in both, or apart in both.");
-        Desk x = deskOf(FIVE);
+        Desk x = averaged(FIVE);
         x.chain(3, 2);
         s.due("together in both, all", x.agree(0, 3), 10);
         x.cut(0, 5);
@@ -339,7 +325,7 @@ public final class CutsBoundsTest {
 
     private static void agreeWithoutTree() {
         Sentence s = CHECK.sentence("Promise 27", "NONE: one has no tree");
-        s.due("agree(0, 2)", View.behind(Sentence::rich).agree(0, 2), 2);
+        s.due("agree(0, 2)", Sentence.richDesk().agree(0, 2), 2);
         s.refused("agree(3, 3)", x -> x.agree(3, 3));
         for (int slot = 0; slot <= 2; slot++) {
             int one = slot;
@@ -355,13 +341,13 @@ public final class CutsBoundsTest {
     private static void agreePoints() {
         Sentence s = CHECK.sentence("Promise 27", "or they have not as many points.");
         for (int n = 0; n <= 20; n++) {
-            Desk x = View.behind(Sentence::rich);
+            Desk x = Sentence.richDesk();
             x.points(n);
             x.greedy(3, 0);
             s.due("four and " + n, x.agree(2, 3), n == 4 ? 6 : -1);
             s.due(n + " and four", x.agree(3, 2), n == 4 ? 6 : -1);
         }
-        Desk x = View.behind(Sentence::rich);
+        Desk x = Sentence.richDesk();
         x.points(7);
         s.due("trees of four, a desk of seven", x.agree(1, 1), 6);
     }
@@ -372,7 +358,7 @@ public final class CutsBoundsTest {
         Sentence s = CHECK.sentence("Promise 28", "Of the cluster of a point in the latest CUT of a SLOT's tree the"
                 + " point whose DISTANCES, as they are now, with all of the cluster are least in sum");
         // On a line: 0, 1, 3, 7, 20.
-        Desk x = deskOf("5 1 3 2 7 6 4 20 19 17 13");
+        Desk x = averaged("5 1 3 2 7 6 4 20 19 17 13");
         for (int i = 0; i < 5; i++) {
             s.due("of all, asked for " + i, x.middle(0, i), 2);
         }
@@ -403,7 +389,7 @@ public final class CutsBoundsTest {
 
     private static void middleOfSeveral() {
         Sentence s = CHECK.sentence("Promise 28", "are least in sum, of several the least.");
-        Desk x = deskOf("4 5 5 5 5 5 5");
+        Desk x = averaged("4 5 5 5 5 5 5");
         s.due("all alike", x.middle(0, 3), 0);
         x.put(0, 1, 6);
         s.due("2 and 3 alike", x.middle(0, 0), 2);
@@ -412,13 +398,13 @@ public final class CutsBoundsTest {
         x.put(2, 3, 4);
         x.put(0, 2, 6);
         s.due("3 alone", x.middle(0, 0), 3);
-        Desk two = deskOf("2 9");
+        Desk two = averaged("2 9");
         s.due("of two", two.middle(0, 1), 0);
     }
 
     private static void middleAsTheyAreNow() {
         Sentence s = CHECK.sentence("Promise 28", "the point whose DISTANCES, as they are now");
-        Desk x = deskOf("3 1 3 2");
+        Desk x = averaged("3 1 3 2");
         s.due("as they were", x.middle(0, 0), 1);
         x.put(0, 1, 50);
         s.due("behind a put", x.middle(0, 0), 2);
@@ -436,15 +422,10 @@ public final class CutsBoundsTest {
 
     private static void middleRefused() {
         Sentence s = CHECK.sentence("Promise 28", "NONE: there is no tree, no such point of it");
-        s.due("middle(0, 0)", View.behind(Sentence::rich).middle(0, 0), 0);
-        s.due("middle(0, 3)", View.behind(Sentence::rich).middle(0, 3), 2);
-        for (int i : new int[] {-1, 4, 19, 20, LEAST, MOST}) {
-            s.refused("middle(0, " + i + ")", x -> x.middle(0, i));
-        }
-        s.refused("middle(3, 0)", x -> x.middle(3, 0));
-        for (int slot : NO_SLOTS) {
-            s.refused("middle(" + slot + ", 0)", x -> x.middle(slot, 0));
-        }
+        s.due("middle(0, 0)", Sentence.richDesk().middle(0, 0), 0);
+        s.due("middle(0, 3)", Sentence.richDesk().middle(0, 3), 2);
+        s.refusedEach("middle(0, %)", (x, i) -> x.middle(0, i), -1, 4, 19, 20, LEAST, MOST);
+        s.refusedWithoutTree("middle(%, 0)", (x, slot) -> x.middle(slot, 0));
         Desk x = new Desk();
         x.greedy(0, 0);
         s.due("of no points", x.middle(0, 0), -1);
@@ -453,7 +434,7 @@ public final class CutsBoundsTest {
     private static void middlePointsNow() {
         Sentence s = CHECK.sentence("Promise 28", "or there are not as many points now.");
         for (int n = 0; n <= 20; n++) {
-            Desk x = View.behind(Sentence::rich);
+            Desk x = Sentence.richDesk();
             x.points(n);
             s.due("a tree of four, " + n + " points now", x.middle(0, 3), n == 4 ? 2 : -1);
         }

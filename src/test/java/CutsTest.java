@@ -17,19 +17,18 @@ public final class CutsTest {
         CHECK.finish();
     }
 
-    private static Desk deskOf(String table) {
-        Desk x = new Desk();
-        x.readText(table);
+    private static Desk averaged(String table) {
+        Desk x = Desk.of(table);
         x.greedy(0, 2);
         return x;
     }
 
     private static void tree() {
-        CHECK.due("the tree", deskOf(TABLE).textOf(0), "((0,3):1,((1,4):2,2):7/2):8;");
+        CHECK.due("the tree", averaged(TABLE).textOf(0), "((0,3):1,((1,4):2,2):7/2):8;");
     }
 
     private static void cut() {
-        Desk x = deskOf(TABLE);
+        Desk x = averaged(TABLE);
         String[] due = {"0 0 0 0 0", "0 1 1 0 1", "0 1 2 0 1", "0 1 2 0 3", "0 1 2 3 4"};
         for (int k = 5; k >= 1; k--) {
             CHECK.due("cut(0, " + k + ")", x.cut(0, k), k);
@@ -66,7 +65,7 @@ public final class CutsTest {
     }
 
     private static void cutAt() {
-        Desk x = deskOf(TABLE);
+        Desk x = averaged(TABLE);
         int[][] due = {{0, 1, 5}, {999, 1000, 5}, {1, 1, 4}, {199, 100, 4}, {2, 1, 3}, {3, 1, 3}, {349, 100, 3},
             {7, 2, 2}, {3500, 1000, 2}, {3499, 1000, 3}, {799, 100, 2}, {8, 1, 1}, {1000000000, 1, 1},
             {1000000000, 1000, 1}};
@@ -100,7 +99,7 @@ public final class CutsTest {
     }
 
     private static void label() {
-        Desk x = deskOf(TABLE);
+        Desk x = averaged(TABLE);
         CHECK.due("labels ahead of any cut", x.labels(0), "0 0 0 0 0");
         x.greedy(1, 0);
         x.cut(0, 5);
@@ -118,7 +117,7 @@ public final class CutsTest {
     }
 
     private static void agree() {
-        Desk x = deskOf(TABLE);
+        Desk x = averaged(TABLE);
         x.greedy(1, 2);
         CHECK.due("ahead of any cut", x.agree(0, 1), 10);
         x.cut(0, 5);
@@ -144,7 +143,7 @@ public final class CutsTest {
     }
 
     private static void middle() {
-        Desk x = deskOf("5 1 3 2 7 6 4 20 19 17 13");
+        Desk x = averaged("5 1 3 2 7 6 4 20 19 17 13");
         // On a line: 0, 1, 3, 7, 20.
         CHECK.due("of all", x.middle(0, 4), 2);
         x.cut(0, 2);
@@ -170,7 +169,7 @@ public final class CutsTest {
     }
 
     private static void middleRefused() {
-        Desk x = deskOf(TABLE);
+        Desk x = averaged(TABLE);
         for (int i : new int[] {-1, 5, 20, Integer.MIN_VALUE, Integer.MAX_VALUE}) {
             CHECK.due("middle(0, " + i + ")", x.middle(0, i), -1);
         }

@@ -8,6 +8,13 @@ final class Desk {
     private final DendroDesk object = new DendroDesk();
     private int calls = 0;
 
+    /** A new desk with the points and DISTANCES of a TABLE. */
+    static Desk of(String table) {
+        Desk x = new Desk();
+        x.readText(table);
+        return x;
+    }
+
     /** How many calls the object has had. */
     int calls() {
         return calls;
@@ -148,6 +155,22 @@ final class Desk {
     int readText(String text) {
         tape(text);
         return read();
+    }
+
+    /** Puts twenty blanks behind the TAPE, so many times. */
+    void feedBlanks(int times) {
+        for (int k = 0; k < times; k++) {
+            feed(0x20202020, 0x20202020, 0x20202020, 0x20202020, 0x20202020);
+        }
+    }
+
+    /** Makes n points in a row, each as far from the one ahead as its number tells: they join one by one. */
+    void layRow(int n) {
+        points(n);
+        for (int i = 1; i < n; i++) {
+            place(i, i * (i + 1) / 2, 0);
+        }
+        measure(1);
     }
 
     /** All bytes of OUT, one call for each and one for the end. */

@@ -33,12 +33,6 @@ public final class PointsBoundsTest {
         CHECK.finish();
     }
 
-    private static Desk deskOf(String table) {
-        Desk x = new Desk();
-        x.readText(table);
-        return x;
-    }
-
     // ---- Promise 1
 
     private static void newObject() {
@@ -62,7 +56,7 @@ public final class PointsBoundsTest {
 
     private static void newObjectsApart() {
         Sentence s = CHECK.sentence("Promise 1", "A new object");
-        Desk x = View.behind(Sentence::rich);
+        Desk x = Sentence.richDesk();
         Desk y = new Desk();
         s.due("points of another one", y.distance(0, 0), -1);
         s.due("tree of another one", y.tree(0, 0), -1);
@@ -79,7 +73,7 @@ public final class PointsBoundsTest {
         Sentence s = CHECK.sentence("Promise 2",
                 "There are n points from now on, all DISTANCES 0, all PLACES 0, 0: n.");
         for (int n = 0; n <= 20; n++) {
-            Desk x = View.behind(Sentence::rich);
+            Desk x = Sentence.richDesk();
             s.due("points(" + n + ")", x.points(n), n);
             s.due("distances of " + n, View.distances(x), n + " 0".repeat(n * (n - 1) / 2));
             x.place(0, 1, 2);
@@ -105,9 +99,7 @@ public final class PointsBoundsTest {
         Sentence s = CHECK.sentence("Promise 2", "NONE: n is not 0 .. 20.");
         s.due("points(0)", new Desk().points(0), 0);
         s.due("points(20)", new Desk().points(20), 20);
-        for (int n : new int[] {-1, 21, LEAST, MOST}) {
-            s.refused("points(" + n + ")", x -> x.points(n));
-        }
+        s.refusedEach("points(%)", (x, n) -> x.points(n), -1, 21, LEAST, MOST);
     }
 
     // ---- Promise 3
@@ -135,8 +127,8 @@ public final class PointsBoundsTest {
 
     private static void putPoints() {
         Sentence s = CHECK.sentence("Promise 3", "False: one is none");
-        s.due("put(3, 0, 1) of four", View.behind(Sentence::rich).put(3, 0, 1), true);
-        s.due("put(0, 3, 1) of four", View.behind(Sentence::rich).put(0, 3, 1), true);
+        s.due("put(3, 0, 1) of four", Sentence.richDesk().put(3, 0, 1), true);
+        s.due("put(0, 3, 1) of four", Sentence.richDesk().put(0, 3, 1), true);
         for (int i : new int[] {-1, 4, 19, 20, 32, LEAST, MOST}) {
             s.refusedAsFalse("put(" + i + ", 0, 1)", x -> x.put(i, 0, 1));
             s.refusedAsFalse("put(0, " + i + ", 1)", x -> x.put(0, i, 1));
@@ -146,7 +138,7 @@ public final class PointsBoundsTest {
 
     private static void putBothAreOne() {
         Sentence s = CHECK.sentence("Promise 3", "both are one");
-        s.due("put(2, 3, 1)", View.behind(Sentence::rich).put(2, 3, 1), true);
+        s.due("put(2, 3, 1)", Sentence.richDesk().put(2, 3, 1), true);
         for (int i = 0; i < 4; i++) {
             int one = i;
             s.refusedAsFalse("put(" + i + ", " + i + ", 0)", x -> x.put(one, one, 0));
@@ -157,20 +149,18 @@ public final class PointsBoundsTest {
     private static void putRange() {
         Sentence s = CHECK.sentence("Promise 3", "or d is not 0 .. 2000000.");
         for (int d : new int[] {0, 1, 1999999, 2000000}) {
-            Desk x = View.behind(Sentence::rich);
+            Desk x = Sentence.richDesk();
             s.due("put(1, 2, " + d + ")", x.put(1, 2, d), true);
             s.due("its distance", x.distance(1, 2), d);
         }
-        for (int d : new int[] {-1, 2000001, LEAST, MOST}) {
-            s.refusedAsFalse("put(1, 2, " + d + ")", x -> x.put(1, 2, d));
-        }
+        s.refusedEachAsFalse("put(1, 2, %)", (x, d) -> x.put(1, 2, d), -1, 2000001, LEAST, MOST);
     }
 
     // ---- Promise 4
 
     private static void distance() {
         Sentence s = CHECK.sentence("Promise 4", "The DISTANCE of two points (0 of one with itself).");
-        Desk x = View.behind(Sentence::rich);
+        Desk x = Sentence.richDesk();
         int[][] due = {{0, 7, 90, 92}, {7, 0, 91, 93}, {90, 91, 0, 2}, {92, 93, 2, 0}};
         for (int i = 0; i < 4; i++) {
             for (int j = 0; j < 4; j++) {
@@ -181,8 +171,8 @@ public final class PointsBoundsTest {
 
     private static void distanceRefused() {
         Sentence s = CHECK.sentence("Promise 4", "NONE if one is none.");
-        s.due("distance(3, 0) of four", View.behind(Sentence::rich).distance(3, 0), 92);
-        s.due("distance(0, 3) of four", View.behind(Sentence::rich).distance(0, 3), 92);
+        s.due("distance(3, 0) of four", Sentence.richDesk().distance(3, 0), 92);
+        s.due("distance(0, 3) of four", Sentence.richDesk().distance(0, 3), 92);
         for (int i : new int[] {-1, 4, 19, 20, LEAST, MOST}) {
             s.refused("distance(" + i + ", 0)", x -> x.distance(i, 0));
             s.refused("distance(0, " + i + ")", x -> x.distance(0, i));
@@ -215,11 +205,9 @@ public final class PointsBoundsTest {
 
     private static void placePoints() {
         Sentence s = CHECK.sentence("Promise 5", "False: there is no such point");
-        s.due("place(3, 0, 0) of four", View.behind(Sentence::rich).place(3, 0, 0), true);
-        s.due("place(0, 0, 0) of four", View.behind(Sentence::rich).place(0, 0, 0), true);
-        for (int i : new int[] {-1, 4, 19, 20, LEAST, MOST}) {
-            s.refusedAsFalse("place(" + i + ", 0, 0)", x -> x.place(i, 0, 0));
-        }
+        s.due("place(3, 0, 0) of four", Sentence.richDesk().place(3, 0, 0), true);
+        s.due("place(0, 0, 0) of four", Sentence.richDesk().place(0, 0, 0), true);
+        s.refusedEachAsFalse("place(%, 0, 0)", (x, i) -> x.place(i, 0, 0), -1, 4, 19, 20, LEAST, MOST);
         s.due("place without points", new Desk().place(0, 0, 0), false);
         Desk x = new Desk();
         x.points(20);
@@ -310,11 +298,9 @@ public final class PointsBoundsTest {
     private static void measureRefused() {
         Sentence s = CHECK.sentence("Promise 6", "False: another how.");
         for (int how = 0; how <= 2; how++) {
-            s.due("measure(" + how + ")", View.behind(Sentence::rich).measure(how), true);
+            s.due("measure(" + how + ")", Sentence.richDesk().measure(how), true);
         }
-        for (int how : new int[] {-1, 3, LEAST, MOST}) {
-            s.refusedAsFalse("measure(" + how + ")", x -> x.measure(how));
-        }
+        s.refusedEachAsFalse("measure(%)", (x, how) -> x.measure(how), -1, 3, LEAST, MOST);
         s.due("measure(3) without points", new Desk().measure(3), false);
     }
 
@@ -323,7 +309,7 @@ public final class PointsBoundsTest {
     private static void linkage() {
         Sentence s = CHECK.sentence("Promise 14",
                 "The top (what 0) or bottom (1) of the linkage, 0 .. 3, of two clusters of points, told as bits");
-        Desk x = deskOf("3 1 2 5");
+        Desk x = Desk.of("3 1 2 5");
         String[] due = {"1/1", "2/1", "3/2", "1/3"};
         for (int kind = 0; kind <= 3; kind++) {
             s.due("linkage " + kind + " of 0 and 1 2", x.linkageOf(kind, 1, 6), due[kind]);
@@ -340,7 +326,7 @@ public final class PointsBoundsTest {
 
     private static void linkageOtherBits() {
         Sentence s = CHECK.sentence("Promise 14", "(others than there are count for nothing)");
-        Desk x = deskOf("3 1 2 5");
+        Desk x = Desk.of("3 1 2 5");
         for (int kind = 0; kind <= 3; kind++) {
             String due = x.linkageOf(kind, 1, 6);
             s.due("with bit 3", x.linkageOf(kind, 1 | 8, 6), due);
@@ -358,7 +344,7 @@ public final class PointsBoundsTest {
     private static void linkageKind() {
         Sentence s = CHECK.sentence("Promise 14", "-1: another linkage or what");
         for (int kind = 0; kind <= 3; kind++) {
-            s.due("linkage(" + kind + ", 1, 2, 0)", View.behind(Sentence::rich).linkage(kind, 1, 2, 0), 7);
+            s.due("linkage(" + kind + ", 1, 2, 0)", Sentence.richDesk().linkage(kind, 1, 2, 0), 7);
         }
         for (int kind : new int[] {-1, 4, 5, LEAST, MOST}) {
             s.refused("linkage(" + kind + ", 1, 2, 0)", x -> x.linkage(kind, 1, 2, 0));
@@ -368,17 +354,15 @@ public final class PointsBoundsTest {
 
     private static void linkageWhat() {
         Sentence s = CHECK.sentence("Promise 14", "another linkage or what");
-        s.due("linkage(2, 1, 2, 0)", View.behind(Sentence::rich).linkage(2, 1, 2, 0), 7);
-        s.due("linkage(2, 1, 2, 1)", View.behind(Sentence::rich).linkage(2, 1, 2, 1), 1);
-        for (int what : new int[] {-1, 2, LEAST, MOST}) {
-            s.refused("linkage(2, 1, 2, " + what + ")", x -> x.linkage(2, 1, 2, what));
-        }
+        s.due("linkage(2, 1, 2, 0)", Sentence.richDesk().linkage(2, 1, 2, 0), 7);
+        s.due("linkage(2, 1, 2, 1)", Sentence.richDesk().linkage(2, 1, 2, 1), 1);
+        s.refusedEach("linkage(2, 1, 2, %)", (x, what) -> x.linkage(2, 1, 2, what), -1, 2, LEAST, MOST);
     }
 
     private static void linkageNoPoints() {
         Sentence s = CHECK.sentence("Promise 14", "one has no points");
-        s.due("linkage(0, 8, 1, 0) of four", View.behind(Sentence::rich).linkage(0, 8, 1, 0), 92);
-        s.due("linkage(0, 1, 8, 0) of four", View.behind(Sentence::rich).linkage(0, 1, 8, 0), 92);
+        s.due("linkage(0, 8, 1, 0) of four", Sentence.richDesk().linkage(0, 8, 1, 0), 92);
+        s.due("linkage(0, 1, 8, 0) of four", Sentence.richDesk().linkage(0, 1, 8, 0), 92);
         for (int none : new int[] {0, 16, -16, LEAST}) {
             s.refused("linkage(0, " + none + ", 1, 0)", x -> x.linkage(0, none, 1, 0));
             s.refused("linkage(0, 1, " + none + ", 1)", x -> x.linkage(0, 1, none, 1));
@@ -389,14 +373,14 @@ public final class PointsBoundsTest {
 
     private static void linkageInCommon() {
         Sentence s = CHECK.sentence("Promise 14", "or both have one in common.");
-        s.due("linkage(0, 3, 12, 0)", View.behind(Sentence::rich).linkage(0, 3, 12, 0), 90);
-        s.due("linkage(0, 7, 8, 0)", View.behind(Sentence::rich).linkage(0, 7, 8, 0), 2);
+        s.due("linkage(0, 3, 12, 0)", Sentence.richDesk().linkage(0, 3, 12, 0), 90);
+        s.due("linkage(0, 7, 8, 0)", Sentence.richDesk().linkage(0, 7, 8, 0), 2);
         int[][] wrong = {{1, 1}, {3, 2}, {2, 3}, {8, 12}, {15, 8}, {15, 15}, {-1, -1}, {-1, 1}};
         for (int[] w : wrong) {
             s.refused("linkage(0, " + w[0] + ", " + w[1] + ", 0)", x -> x.linkage(0, w[0], w[1], 0));
             s.refused("linkage(3, " + w[0] + ", " + w[1] + ", 1)", x -> x.linkage(3, w[0], w[1], 1));
         }
-        s.due("in common beyond the points alone", View.behind(Sentence::rich).linkage(0, 17, 18, 0), 7);
+        s.due("in common beyond the points alone", Sentence.richDesk().linkage(0, 17, 18, 0), 7);
     }
 
     private static void lookingChangesNothing() {

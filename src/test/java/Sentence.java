@@ -6,6 +6,17 @@ import java.util.function.ToLongFunction;
 
 /** A sentence of the document that names a boundary: what is asked on both sides of it is told with its words. */
 final class Sentence {
+    /** A call with one of several numbers. */
+    interface Asked {
+        long with(Desk x, int number);
+    }
+
+    /** Likewise, of a call that answers true or false. */
+    interface AskedWhether {
+        boolean with(Desk x, int number);
+    }
+
+    private static final int[] SLOTS_WITHOUT_TREE = {3, -1, 4, Integer.MIN_VALUE, Integer.MAX_VALUE};
     private static final Map<String, String> RICH = View.of(Sentence::rich);
 
     private final Check check;
@@ -43,6 +54,10 @@ final class Sentence {
         x.tape("3 1 2 3");
     }
 
+    static Desk richDesk() {
+        return View.behind(Sentence::rich);
+    }
+
     void due(String call, long got, long want) {
         check.due(named + call, got, want);
     }
@@ -57,7 +72,7 @@ final class Sentence {
 
     /** On the rich desk the call answers NONE, and nothing that a later call shows is another. */
     void refused(String call, ToLongFunction<Desk> asked) {
-        due(call, asked.applyAsLong(View.behind(Sentence::rich)), -1);
+        due(call, asked.applyAsLong(richDesk()), -1);
         unchanged(call, RICH, View.of(x -> {
             rich(x);
             asked.applyAsLong(x);
@@ -67,6 +82,22 @@ final class Sentence {
     /** Likewise of a call that answers false. */
     void refusedAsFalse(String call, Predicate<Desk> asked) {
         refused(call, x -> asked.test(x) ? 1 : -1);
+    }
+
+    /** The call is refused with each of these numbers; its name has a % in their place. */
+    void refusedEach(String call, Asked asked, int... numbers) {
+        for (int number : numbers) {
+            refused(call.replace("%", "" + number), x -> asked.with(x, number));
+        }
+    }
+
+    void refusedEachAsFalse(String call, AskedWhether asked, int... numbers) {
+        refusedEach(call, (x, number) -> asked.with(x, number) ? 1 : -1, numbers);
+    }
+
+    /** The call is refused with SLOT 3, which has no tree on the rich desk, and with what is no SLOT. */
+    void refusedWithoutTree(String call, Asked asked) {
+        refusedEach(call, asked, SLOTS_WITHOUT_TREE);
     }
 
     /** On a desk behind a story of its own the call answers NONE, and changes nothing. */

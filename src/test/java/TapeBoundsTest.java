@@ -28,12 +28,6 @@ public final class TapeBoundsTest {
         CHECK.finish();
     }
 
-    private static void feedBlanks(Desk x, int times) {
-        for (int k = 0; k < times; k++) {
-            x.feed(BLANKS, BLANKS, BLANKS, BLANKS, BLANKS);
-        }
-    }
-
     // ---- Promise 7
 
     private static void feedOrder() {
@@ -71,7 +65,7 @@ public final class TapeBoundsTest {
         Sentence s = CHECK.sentence("Promise 7", "NONE, and nothing comes, if there would be more than 2400.");
         for (int length : new int[] {0, 1, 2360, 2379, 2380}) {
             Desk x = new Desk();
-            feedBlanks(x, 120);
+            x.feedBlanks(120);
             x.end(length);
             s.due("feed behind " + length, x.feed(0, 0, 0, 0, 0), length + 20);
         }
@@ -80,7 +74,7 @@ public final class TapeBoundsTest {
                 Sentence.rich(x);
                 x.end(0);
                 x.feed(0x32203720, BLANKS, BLANKS, BLANKS, BLANKS);
-                feedBlanks(x, 119);
+                x.feedBlanks(119);
                 x.end(length);
             };
             s.refusedBehind(story, "feed behind " + length, x -> x.feed(-1, -1, -1, -1, -1));
@@ -93,7 +87,7 @@ public final class TapeBoundsTest {
         Sentence s = CHECK.sentence("Promise 8", "The TAPE has its first n bytes alone: n.");
         for (int n = 0; n <= 7; n++) {
             int first = n;
-            Desk x = View.behind(Sentence::rich);
+            Desk x = Sentence.richDesk();
             s.due("end(" + n + ") of 7", x.end(n), n);
             s.due("end(" + (n + 1) + ") then", x.end(n + 1), -1);
             s.due("the tape then", View.tapeLength(y -> {
@@ -112,7 +106,7 @@ public final class TapeBoundsTest {
 
     private static void endTooFar() {
         Sentence s = CHECK.sentence("Promise 8", "NONE if it has not so many");
-        s.due("end(7) of 7", View.behind(Sentence::rich).end(7), 7);
+        s.due("end(7) of 7", Sentence.richDesk().end(7), 7);
         s.due("end(0) of none", new Desk().end(0), 0);
         for (int n : new int[] {8, 20, 2400, 2401, MOST}) {
             s.refused("end(" + n + ")", x -> x.end(n));
@@ -122,7 +116,7 @@ public final class TapeBoundsTest {
 
     private static void endBelow0() {
         Sentence s = CHECK.sentence("Promise 8", "or n is below 0");
-        s.due("end(0) of 7", View.behind(Sentence::rich).end(0), 0);
+        s.due("end(0) of 7", Sentence.richDesk().end(0), 0);
         for (int n : new int[] {-1, -20, LEAST}) {
             s.refused("end(" + n + ")", x -> x.end(n));
             s.due("end(" + n + ") of none", new Desk().end(n), -1);
@@ -139,7 +133,7 @@ public final class TapeBoundsTest {
         s.due("take of one byte", x.take(), 1);
         s.due("read of it", x.read(), 0);
         s.due("take once more", x.take(), 1);
-        x = View.behind(Sentence::rich);
+        x = Sentence.richDesk();
         s.due("take of a text", x.take(), 24);
         s.due("read of a text", x.read(), -1);
         s.due("fault of a text", x.fault(), 0);
@@ -158,13 +152,12 @@ public final class TapeBoundsTest {
         s.due("an empty OUT in place of 3 bytes", x.take(), 0);
         s.due("end(1) then", x.end(1), -1);
         x = new Desk();
-        feedBlanks(x, 120);
+        x.feedBlanks(120);
         x.write();
         s.due("one byte in place of 2400", x.take(), 1);
         s.due("end(2) then", x.end(2), -1);
         s.due("read then", x.read(), 0);
-        x = new Desk();
-        x.readText("3 1 2 3");
+        x = Desk.of("3 1 2 3");
         x.write();
         x.tape("2 5");
         s.due("seven bytes in place of three", x.take(), 7);
@@ -177,7 +170,7 @@ public final class TapeBoundsTest {
         Sentence s = CHECK.sentence("Promise 10",
                 "The TAPE is taken, as a TABLE: n, and the points and DISTANCES are these");
         for (int n = 0; n <= 20; n++) {
-            Desk x = View.behind(Sentence::rich);
+            Desk x = Sentence.richDesk();
             String table = n + " 2000000".repeat(n * (n - 1) / 2);
             s.due("read of " + n, x.readText(table), n);
             s.due("distances of " + n, View.distances(x), table);
@@ -203,11 +196,11 @@ public final class TapeBoundsTest {
         Sentence s = CHECK.sentence("Promise 10", "NONE: a FAULT.");
         String[] unsound = {"", " ", "x", "2", "2 x", "2 5x", "2 5 6", "21", "2 2000001", "2 00000005", "20 1", "0 0"};
         for (String text : unsound) {
-            s.due("read of '" + text + "'", View.behind(Sentence::rich).readText(text), -1);
+            s.due("read of '" + text + "'", Sentence.richDesk().readText(text), -1);
             s.changesOnly("read of '" + text + "'", x -> x.readText(text), View.TAPE, View.FAULT);
         }
         for (String text : new String[] {"0", " 1", "2 5", "2 2000000", "2 0000005"}) {
-            s.due("read of '" + text + "'", View.behind(Sentence::rich).readText(text), text.trim().charAt(0) - '0');
+            s.due("read of '" + text + "'", Sentence.richDesk().readText(text), text.trim().charAt(0) - '0');
         }
     }
 
@@ -215,8 +208,7 @@ public final class TapeBoundsTest {
 
     private static void fault() {
         Sentence s = CHECK.sentence("Promise 11", "The place of the FAULT of the latest read()");
-        Desk x = new Desk();
-        x.readText("x");
+        Desk x = Desk.of("x");
         s.due("the first place", x.fault(), 0);
         s.due("asked again", x.fault(), 0);
         x.readText("2 x");
@@ -224,15 +216,15 @@ public final class TapeBoundsTest {
         x.tape("2 5");
         s.due("ahead of the next read", x.fault(), 2);
         x = new Desk();
-        feedBlanks(x, 120);
+        x.feedBlanks(120);
         x.read();
         s.due("the last place", x.fault(), 2400);
         x = new Desk();
-        feedBlanks(x, 119);
+        x.feedBlanks(119);
         x.feed(BLANKS, BLANKS, BLANKS, BLANKS, 0x2020205f);
         x.read();
         s.due("the last byte", x.fault(), 2399);
-        s.due("behind other calls", View.behind(Sentence::rich).fault(), 2);
+        s.due("behind other calls", Sentence.richDesk().fault(), 2);
     }
 
     private static void faultWithout() {
@@ -264,12 +256,12 @@ public final class TapeBoundsTest {
                 "OUT is the TABLE of what there is, one blank between numbers: how many bytes.");
         String[] tables = {"0", "1", "2 0", "2 9", "2 10", "2 2000000", "3 1 2 3", "3 0 0 0", "4 100 20 3 0 50 600"};
         for (String table : tables) {
-            Desk x = View.behind(Sentence::rich);
+            Desk x = Sentence.richDesk();
             x.readText(table);
             s.due("write of " + table, x.write(), table.length());
             s.due("its table", x.outText(), table);
         }
-        s.due("the blank", View.behind(Sentence::rich).table().charAt(1), 32);
+        s.due("the blank", Sentence.richDesk().table().charAt(1), 32);
         s.changesOnly("write", Desk::write, View.OUT);
         Desk x = new Desk();
         x.points(9);
@@ -294,8 +286,7 @@ public final class TapeBoundsTest {
 
     private static void out() {
         Sentence s = CHECK.sentence("Promise 13", "Byte i of OUT");
-        Desk x = new Desk();
-        x.readText("2 907");
+        Desk x = Desk.of("2 907");
         x.write();
         String due = "2 907";
         for (int i = 0; i < due.length(); i++) {
@@ -307,15 +298,13 @@ public final class TapeBoundsTest {
 
     private static void outRefused() {
         Sentence s = CHECK.sentence("Promise 13", "NONE if there is none such.");
-        s.due("out(23) of 24", View.behind(Sentence::rich).out(23), ';');
-        s.due("out(0) of 24", View.behind(Sentence::rich).out(0), '(');
-        for (int i : new int[] {24, 25, -1, 2399, 2400, LEAST, MOST}) {
-            s.refused("out(" + i + ")", x -> x.out(i));
-        }
+        s.due("out(23) of 24", Sentence.richDesk().out(23), ';');
+        s.due("out(0) of 24", Sentence.richDesk().out(0), '(');
+        s.refusedEach("out(%)", (x, i) -> x.out(i), 24, 25, -1, 2399, 2400, LEAST, MOST);
         for (int i : new int[] {0, -1, 1, LEAST, MOST}) {
             s.due("out(" + i + ") of an empty OUT", new Desk().out(i), -1);
         }
-        Desk x = View.behind(Sentence::rich);
+        Desk x = Sentence.richDesk();
         x.points(0);
         x.write();
         s.due("out(0) of a shorter OUT", x.out(0), '0');

@@ -56,8 +56,7 @@ public final class TapeTest {
     }
 
     private static void take() {
-        Desk x = new Desk();
-        x.readText("3 7 8 9");
+        Desk x = Desk.of("3 7 8 9");
         x.write();
         x.points(2);
         x.tape("2 55555 no");
@@ -94,8 +93,7 @@ public final class TapeTest {
     }
 
     private static void faults() {
-        Desk x = new Desk();
-        x.readText("2 44");
+        Desk x = Desk.of("2 44");
         Object[][] unsound = {{"", 0}, {"  ", 2}, {"2", 1}, {"2 ", 2}, {"21", 0}, {" 21x", 1}, {"x", 0}, {"2x", 1},
             {"-1", 0}, {"00000002 1", 0}, {"2 2000001", 2}, {"2 2000001 x", 2}, {"2 9999999", 2}, {"2 00000001", 2},
             {"2 12345678901x", 2}, {"2 1x", 3}, {"2 1 x", 4}, {"2 1 7", 4}, {"2 1  7 8", 5}, {"0 0", 2}, {"1 1", 2},

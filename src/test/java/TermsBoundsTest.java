@@ -36,32 +36,26 @@ public final class TermsBoundsTest {
         CHECK.finish();
     }
 
-    private static Desk deskOf(String table) {
-        Desk x = new Desk();
-        x.readText(table);
-        return x;
-    }
-
     private static String greedySteps(String table, int kind) {
-        Desk x = deskOf(table);
+        Desk x = Desk.of(table);
         x.greedy(0, kind);
         return x.steps(0);
     }
 
     private static String chainSteps(String table, int kind) {
-        Desk x = deskOf(table);
+        Desk x = Desk.of(table);
         x.chain(0, kind);
         return x.steps(0);
     }
 
     private static int greedyTies(String table, int kind) {
-        Desk x = deskOf(table);
+        Desk x = Desk.of(table);
         x.greedy(0, kind);
         return x.tree(0, 1);
     }
 
     private static int chainTies(String table, int kind) {
-        Desk x = deskOf(table);
+        Desk x = Desk.of(table);
         x.chain(0, kind);
         return x.tree(0, 1);
     }
@@ -223,7 +217,7 @@ public final class TermsBoundsTest {
             {"3 1 2 5", "3/2", "1/3"}, {"3 1 2 6", "3/2", "0/1"}, {"3 1 2 7", "3/2", "-1/3"},
             {"3 1 1 8", "1/1", "-4/3"}, {"3 0 0 6", "0/1", "-2/1"}, {"3 3 6 0", "9/2", "6/1"}};
         for (String[] d : due) {
-            Desk x = deskOf(d[0]);
+            Desk x = Desk.of(d[0]);
             s.due("AVERAGE of 0 and 1 2 in " + d[0], x.linkageOf(2, 1, 6), d[1]);
             s.due("WARD of 0 and 1 2 in " + d[0], x.linkageOf(3, 1, 6), d[2]);
         }
@@ -254,7 +248,7 @@ public final class TermsBoundsTest {
             four[k] = 0;
             between(s, 0, four, "0/1");
         }
-        s.due("of distances inside nothing counts", deskOf("3 0 5 6").linkageOf(0, 3, 4), "5/1");
+        s.due("of distances inside nothing counts", Desk.of("3 0 5 6").linkageOf(0, 3, 4), "5/1");
     }
 
     private static void complete() {
@@ -267,7 +261,7 @@ public final class TermsBoundsTest {
             four[k] = 2000000;
             between(s, 1, four, "2000000/1");
         }
-        s.due("of distances inside nothing counts", deskOf("3 9 5 6").linkageOf(1, 3, 4), "6/1");
+        s.due("of distances inside nothing counts", Desk.of("3 9 5 6").linkageOf(1, 3, 4), "6/1");
     }
 
     private static void average() {
@@ -275,8 +269,8 @@ public final class TermsBoundsTest {
         between(s, 2, new int[] {1, 2, 3, 5}, "11/4");
         between(s, 2, new int[] {1, 2, 4, 5}, "3/1");
         between(s, 2, new int[] {0, 0, 0, 1}, "1/4");
-        s.due("of two points", deskOf("2 7").linkageOf(2, 1, 2), "7/1");
-        s.due("of one and two", deskOf("3 7 8 9").linkageOf(2, 1, 6), "15/2");
+        s.due("of two points", Desk.of("2 7").linkageOf(2, 1, 2), "7/1");
+        s.due("of one and two", Desk.of("3 7 8 9").linkageOf(2, 1, 6), "15/2");
         Desk x = new Desk();
         x.points(20);
         x.put(0, 19, 2000000);
@@ -287,14 +281,14 @@ public final class TermsBoundsTest {
     private static void ward() {
         Sentence s = CHECK.sentence("LINKAGES",
                 "3 WARD: 2 / (a + b) times (S(A, B) - b / a S(A) - a / b S(B))");
-        s.due("of two points", deskOf("2 7").linkageOf(3, 1, 2), "7/1");
-        s.due("of one and two", deskOf("3 7 8 9").linkageOf(3, 1, 6), "7/1");
-        s.due("of two and one", deskOf("3 7 8 9").linkageOf(3, 3, 4), "9/1");
+        s.due("of two points", Desk.of("2 7").linkageOf(3, 1, 2), "7/1");
+        s.due("of one and two", Desk.of("3 7 8 9").linkageOf(3, 1, 6), "7/1");
+        s.due("of two and one", Desk.of("3 7 8 9").linkageOf(3, 3, 4), "9/1");
         // 2 / 4 (2 + 3 + 4 + 5 - 1 - 6)
-        s.due("of two and two", deskOf("4 1 2 3 4 5 6").linkageOf(3, 3, 12), "7/2");
+        s.due("of two and two", Desk.of("4 1 2 3 4 5 6").linkageOf(3, 3, 12), "7/2");
         // 2 / 4 (1 + 2 + 4 - 1 / 3 (3 + 5 + 6))
-        s.due("of one and three", deskOf("4 1 2 3 4 5 6").linkageOf(3, 1, 14), "7/6");
-        s.due("of three and one", deskOf("4 1 2 3 4 5 6").linkageOf(3, 14, 1), "7/6");
+        s.due("of one and three", Desk.of("4 1 2 3 4 5 6").linkageOf(3, 1, 14), "7/6");
+        s.due("of three and one", Desk.of("4 1 2 3 4 5 6").linkageOf(3, 14, 1), "7/6");
         Desk x = new Desk();
         x.points(20);
         for (int i = 0; i < 20; i++) {
@@ -317,7 +311,7 @@ public final class TermsBoundsTest {
                 "0+1#2=3@1/1 2+4#3=7@5/1 3+5#4=15@55/2");
         s.due("halves along a chain", chainSteps("4 1 5 5 10 20 40", 4),
                 "0+1#2=3@1/1 2+4#3=7@5/1 3+5#4=15@55/2");
-        s.due("no linkage of clusters that are told", deskOf("2 5").linkageOf(4, 1, 2), "-1/-1");
+        s.due("no linkage of clusters that are told", Desk.of("2 5").linkageOf(4, 1, 2), "-1/-1");
     }
 
     private static void carriedOnThree() {
@@ -378,11 +372,7 @@ public final class TermsBoundsTest {
         s.due("four points", greedySteps("4 9 9 9 9 9 3", 0), "2+3#2=12@3/1 0+1#2=3@9/1 4+5#4=15@9/1");
         for (int way = 0; way <= 1; way++) {
             Desk x = new Desk();
-            x.points(20);
-            for (int i = 1; i < 20; i++) {
-                x.place(i, i * (i + 1) / 2, 0);
-            }
-            x.measure(1);
+            x.layRow(20);
             s.due("steps", way == 0 ? x.greedy(0, 0) : x.chain(0, 0), 19);
             s.due("step 0", x.step(0, 0), "0+1#2=3@1/1");
             s.due("step 1", x.step(0, 1), "2+20#3=7@2/1");
@@ -475,8 +465,8 @@ public final class TermsBoundsTest {
     }
 
     private static void chainRightBelow() {
-        Sentence s = CHECK.sentence("CHAIN",
-                "of several that which lies right below it on the stack, if that is one of them, else the least number");
+        Sentence s = CHECK.sentence("CHAIN", "of several that which lies right below it on the stack, if that is one of"
+                + " them, else the least number");
         // 0, 2, 3: to 3 both 1 and 2 are near.
         s.due("right below", chainSteps("4 9 3 9 9 1 1", 0), "2+3#2=12@1/1 1+4#3=14@1/1 0+5#4=15@3/1");
         s.due("right below, a little farther", chainSteps("4 9 3 9 9 1 2", 0),

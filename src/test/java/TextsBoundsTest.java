@@ -35,8 +35,7 @@ public final class TextsBoundsTest {
     }
 
     private static int faultOf(String text) {
-        Desk x = new Desk();
-        x.readText(text);
+        Desk x = Desk.of(text);
         return x.fault();
     }
 
@@ -48,17 +47,10 @@ public final class TextsBoundsTest {
     }
 
     private static void unsound(Sentence s, String text, int fault) {
-        Desk x = new Desk();
-        x.readText("2 77");
+        Desk x = Desk.of("2 77");
         s.due("read of '" + text + "'", x.readText(text), -1);
         s.due("fault of '" + text + "'", x.fault(), fault);
         s.due("table behind '" + text + "'", x.table(), "2 77");
-    }
-
-    private static void feedBlanks(Desk x, int times) {
-        for (int k = 0; k < times; k++) {
-            x.feed(BLANKS, BLANKS, BLANKS, BLANKS, BLANKS);
-        }
     }
 
     // ---- 3. TEXTS: THE TAPE, TABLE
@@ -66,7 +58,7 @@ public final class TextsBoundsTest {
     private static void tapeLength() {
         Sentence s = CHECK.sentence("THE TAPE", "THE TAPE has at most 2400 bytes");
         Desk x = new Desk();
-        feedBlanks(x, 119);
+        x.feedBlanks(119);
         s.due("end(2380)", x.end(2380), 2380);
         s.due("twenty more", x.feed(BLANKS, BLANKS, BLANKS, BLANKS, BLANKS), 2400);
         s.due("twenty more", x.feed(BLANKS, BLANKS, BLANKS, BLANKS, BLANKS), -1);
@@ -125,7 +117,7 @@ public final class TextsBoundsTest {
         unsound(s, "\n", 1);
         sound(s, "\n0", "0");
         Desk x = new Desk();
-        feedBlanks(x, 120);
+        x.feedBlanks(120);
         s.due("read of 2400 blanks", x.read(), -1);
         s.due("their fault", x.fault(), 2400);
     }
@@ -148,8 +140,7 @@ public final class TextsBoundsTest {
                 next++;
             }
         }
-        x = new Desk();
-        x.readText("4 1 2 3 4 5 6");
+        x = Desk.of("4 1 2 3 4 5 6");
         s.due("1 and 0", x.distance(1, 0), 1);
         s.due("2 and 0", x.distance(2, 0), 2);
         s.due("2 and 1", x.distance(2, 1), 3);
@@ -264,19 +255,14 @@ public final class TextsBoundsTest {
     // ---- THE TEXT, THE ORDER
 
     private static String greedyText(String table, int kind) {
-        Desk x = new Desk();
-        x.readText(table);
+        Desk x = Desk.of(table);
         x.greedy(0, kind);
         return x.textOf(0);
     }
 
     /** A row of twenty points, each nearer to the one ahead than to the one behind. */
     private static void growRow(Desk x) {
-        x.points(20);
-        for (int i = 1; i < 20; i++) {
-            x.place(i, i * (i + 1) / 2, 0);
-        }
-        x.measure(1);
+        x.layRow(20);
         x.greedy(0, 0);
     }
 
@@ -332,8 +318,7 @@ public final class TextsBoundsTest {
     }
 
     private static String greedyOrder(String table) {
-        Desk x = new Desk();
-        x.readText(table);
+        Desk x = Desk.of(table);
         x.greedy(0, 0);
         return x.order(0);
     }
@@ -402,7 +387,7 @@ public final class TextsBoundsTest {
         s.changesOnly("points(0)", x -> x.points(0), View.DISTANCES, View.PLACES);
         s.changesOnly("points(20)", x -> x.points(20), View.DISTANCES, View.PLACES);
         s.changesOnly("read", Desk::read, View.DISTANCES, View.PLACES, View.TAPE, View.FAULT);
-        Desk x = View.behind(Sentence::rich);
+        Desk x = Sentence.richDesk();
         x.put(0, 1, 2000000);
         s.due("the tree of what was", x.textOf(0), "((0,1):5,(2,3):2):183/2;");
         x.greedy(0, 2);
@@ -442,7 +427,7 @@ public final class TextsBoundsTest {
         s.refused("end(8)", x -> x.end(8));
         s.refused("out(-1)", x -> x.out(-1));
         s.refused("text(3)", x -> x.text(3));
-        s.due("a read that is refused", View.behind(Sentence::rich).readText("3 1 2 3 4"), -1);
+        s.due("a read that is refused", Sentence.richDesk().readText("3 1 2 3 4"), -1);
         s.changesOnly("a read that is refused", x -> x.readText("3 1 2 3 4"), View.TAPE, View.FAULT);
     }
 

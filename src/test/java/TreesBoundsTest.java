@@ -39,12 +39,6 @@ public final class TreesBoundsTest {
         CHECK.finish();
     }
 
-    private static Desk deskOf(String table) {
-        Desk x = new Desk();
-        x.readText(table);
-        return x;
-    }
-
     /** By GREEDY, way 0, or by CHAIN, way 1. */
     private static int grow(Desk x, int way, int slot, int kind) {
         return way == 0 ? x.greedy(slot, kind) : x.chain(slot, kind);
@@ -62,7 +56,7 @@ public final class TreesBoundsTest {
         String[] due = {"6/1", "10/1", "25/3", "67/6", "35/4"};
         for (int kind = 0; kind <= 4; kind++) {
             for (int slot = 0; slot <= 3; slot++) {
-                Desk x = deskOf("4 1 5 2 9 6 10");
+                Desk x = Desk.of("4 1 5 2 9 6 10");
                 s.due("linkage " + kind + " in slot " + slot, grow(x, way, slot, kind), 3);
                 s.due("its facts", x.facts(slot), "3 0 4 " + kind + " " + way);
                 s.due("its last height", x.heightOf(slot, 2), due[kind]);
@@ -75,7 +69,7 @@ public final class TreesBoundsTest {
     private static void grownOfFew(int way) {
         Sentence s = growSentence(way, "how many STEPS", "A SLOT has the tree by CHAIN, likewise.");
         for (int n = 0; n <= 20; n++) {
-            Desk x = View.behind(Sentence::rich);
+            Desk x = Sentence.richDesk();
             x.points(n);
             for (int kind = 0; kind <= 4; kind++) {
                 s.due("of " + n + " points", grow(x, way, 0, kind), Math.max(0, n - 1));
@@ -96,8 +90,8 @@ public final class TreesBoundsTest {
 
     private static void growRefusedSlot(int way) {
         Sentence s = growSentence(way, "NONE: there is no such SLOT", "A SLOT has the tree by CHAIN, likewise.");
-        s.due("slot 0", grow(View.behind(Sentence::rich), way, 0, 0), 3);
-        s.due("slot 3", grow(View.behind(Sentence::rich), way, 3, 0), 3);
+        s.due("slot 0", grow(Sentence.richDesk(), way, 0, 0), 3);
+        s.due("slot 3", grow(Sentence.richDesk(), way, 3, 0), 3);
         for (int slot : NO_SLOTS) {
             s.refused("slot " + slot, x -> grow(x, way, slot, 0));
         }
@@ -105,8 +99,8 @@ public final class TreesBoundsTest {
 
     private static void growRefusedKind(int way) {
         Sentence s = growSentence(way, "there is no such SLOT, or linkage.", "A SLOT has the tree by CHAIN, likewise.");
-        s.due("linkage 0", grow(View.behind(Sentence::rich), way, 0, 0), 3);
-        s.due("linkage 4", grow(View.behind(Sentence::rich), way, 0, 4), 3);
+        s.due("linkage 0", grow(Sentence.richDesk(), way, 0, 0), 3);
+        s.due("linkage 4", grow(Sentence.richDesk(), way, 0, 4), 3);
         for (int kind : new int[] {-1, 5, LEAST, MOST}) {
             s.refused("linkage " + kind, x -> grow(x, way, 0, kind));
             s.refused("linkage " + kind + " in an empty slot", x -> grow(x, way, 3, kind));
@@ -138,26 +132,21 @@ public final class TreesBoundsTest {
         Sentence s = CHECK.sentence("Promise 17", "NONE: there is no such SLOT, it has no tree");
         for (int what = 0; what <= 4; what++) {
             int asked = what;
-            s.due("tree(0, " + what + ")", View.behind(Sentence::rich).tree(0, what) != -1, true);
-            s.due("tree(2, " + what + ")", View.behind(Sentence::rich).tree(2, what) != -1, true);
-            s.refused("tree(3, " + what + ")", x -> x.tree(3, asked));
-            for (int slot : NO_SLOTS) {
-                s.refused("tree(" + slot + ", " + what + ")", x -> x.tree(slot, asked));
-            }
+            s.due("tree(0, " + what + ")", Sentence.richDesk().tree(0, what) != -1, true);
+            s.due("tree(2, " + what + ")", Sentence.richDesk().tree(2, what) != -1, true);
+            s.refusedWithoutTree("tree(%, " + what + ")", (x, slot) -> x.tree(slot, asked));
         }
-        Desk x = View.behind(Sentence::rich);
+        Desk x = Sentence.richDesk();
         x.greedy(3, 0);
         s.due("tree(3, 0), as soon as there is one", x.tree(3, 0), 3);
     }
 
     private static void treeRefusedWhat() {
         Sentence s = CHECK.sentence("Promise 17", "or another what.");
-        s.due("tree(1, 0)", View.behind(Sentence::rich).tree(1, 0), 3);
-        s.due("tree(1, 4)", View.behind(Sentence::rich).tree(1, 4), 1);
-        s.due("tree(0, 4)", View.behind(Sentence::rich).tree(0, 4), 0);
-        for (int what : new int[] {-1, 5, LEAST, MOST}) {
-            s.refused("tree(1, " + what + ")", x -> x.tree(1, what));
-        }
+        s.due("tree(1, 0)", Sentence.richDesk().tree(1, 0), 3);
+        s.due("tree(1, 4)", Sentence.richDesk().tree(1, 4), 1);
+        s.due("tree(0, 4)", Sentence.richDesk().tree(0, 4), 0);
+        s.refusedEach("tree(1, %)", (x, what) -> x.tree(1, what), -1, 5, LEAST, MOST);
     }
 
     // ---- Promise 18
@@ -165,7 +154,7 @@ public final class TreesBoundsTest {
     private static void step() {
         Sentence s = CHECK.sentence("Promise 18", "Of STEP k of a SLOT's tree, what 0, 1: its clusters, 2: how many"
                 + " points, 3: its points as bits.");
-        Desk x = View.behind(Sentence::rich);
+        Desk x = Sentence.richDesk();
         String due = "2+3#2=12@2/1 0+1#2=3@5/1 4+5#4=15@183/2";
         s.due("four points", x.steps(0), due);
         x = new Desk();
@@ -180,15 +169,10 @@ public final class TreesBoundsTest {
         Sentence s = CHECK.sentence("Promise 18", "NONE: there is none such");
         for (int what = 0; what <= 3; what++) {
             int asked = what;
-            s.due("step(0, 0, " + what + ")", View.behind(Sentence::rich).step(0, 0, what) != -1, true);
-            s.due("step(0, 2, " + what + ")", View.behind(Sentence::rich).step(0, 2, what) != -1, true);
-            for (int k : new int[] {-1, 3, 18, 19, 20, LEAST, MOST}) {
-                s.refused("step(0, " + k + ", " + what + ")", x -> x.step(0, k, asked));
-            }
-            s.refused("step(3, 0, " + what + ")", x -> x.step(3, 0, asked));
-            for (int slot : NO_SLOTS) {
-                s.refused("step(" + slot + ", 0, " + what + ")", x -> x.step(slot, 0, asked));
-            }
+            s.due("step(0, 0, " + what + ")", Sentence.richDesk().step(0, 0, what) != -1, true);
+            s.due("step(0, 2, " + what + ")", Sentence.richDesk().step(0, 2, what) != -1, true);
+            s.refusedEach("step(0, %, " + what + ")", (x, k) -> x.step(0, k, asked), -1, 3, 18, 19, 20, LEAST, MOST);
+            s.refusedWithoutTree("step(%, 0, " + what + ")", (x, slot) -> x.step(slot, 0, asked));
         }
         for (int n = 0; n <= 20; n++) {
             Desk x = new Desk();
@@ -204,18 +188,16 @@ public final class TreesBoundsTest {
 
     private static void stepRefusedWhat() {
         Sentence s = CHECK.sentence("Promise 18", "or another what.");
-        s.due("step(0, 2, 0)", View.behind(Sentence::rich).step(0, 2, 0), 4);
-        s.due("step(0, 2, 3)", View.behind(Sentence::rich).step(0, 2, 3), 15);
-        for (int what : new int[] {-1, 4, LEAST, MOST}) {
-            s.refused("step(0, 2, " + what + ")", x -> x.step(0, 2, what));
-        }
+        s.due("step(0, 2, 0)", Sentence.richDesk().step(0, 2, 0), 4);
+        s.due("step(0, 2, 3)", Sentence.richDesk().step(0, 2, 3), 15);
+        s.refusedEach("step(0, 2, %)", (x, what) -> x.step(0, 2, what), -1, 4, LEAST, MOST);
     }
 
     // ---- Promise 19
 
     private static void height() {
         Sentence s = CHECK.sentence("Promise 19", "The top (what 0) or bottom (1) of STEP k's HEIGHT.");
-        Desk x = View.behind(Sentence::rich);
+        Desk x = Sentence.richDesk();
         s.due("top of step 0", x.height(0, 0, 0), 2);
         s.due("bottom of step 0", x.height(0, 0, 1), 1);
         s.due("top of step 2", x.height(0, 2, 0), 183);
@@ -239,15 +221,11 @@ public final class TreesBoundsTest {
         Sentence s = CHECK.sentence("Promise 19", "-1: there is none such");
         for (int what = 0; what <= 1; what++) {
             int asked = what;
-            s.due("height(0, 0, " + what + ")", View.behind(Sentence::rich).height(0, 0, what), 2 - what);
-            s.due("height(0, 2, " + what + ")", View.behind(Sentence::rich).height(0, 2, what), what == 0 ? 183 : 2);
-            for (int k : new int[] {-1, 3, 18, 19, 20, LEAST, MOST}) {
-                s.refused("height(0, " + k + ", " + what + ")", x -> x.height(0, k, asked));
-            }
-            s.refused("height(3, 0, " + what + ")", x -> x.height(3, 0, asked));
-            for (int slot : NO_SLOTS) {
-                s.refused("height(" + slot + ", 0, " + what + ")", x -> x.height(slot, 0, asked));
-            }
+            s.due("height(0, 0, " + what + ")", Sentence.richDesk().height(0, 0, what), 2 - what);
+            s.due("height(0, 2, " + what + ")", Sentence.richDesk().height(0, 2, what), what == 0 ? 183 : 2);
+            s.refusedEach("height(0, %, " + what + ")", (x, k) -> x.height(0, k, asked), -1, 3, 18, 19, 20, LEAST,
+                    MOST);
+            s.refusedWithoutTree("height(%, 0, " + what + ")", (x, slot) -> x.height(slot, 0, asked));
         }
         for (int n = 0; n <= 20; n++) {
             Desk x = new Desk();
@@ -262,11 +240,9 @@ public final class TreesBoundsTest {
 
     private static void heightRefusedWhat() {
         Sentence s = CHECK.sentence("Promise 19", "or another what.");
-        s.due("height(0, 2, 0)", View.behind(Sentence::rich).height(0, 2, 0), 183);
-        s.due("height(0, 2, 1)", View.behind(Sentence::rich).height(0, 2, 1), 2);
-        for (int what : new int[] {-1, 2, LEAST, MOST}) {
-            s.refused("height(0, 2, " + what + ")", x -> x.height(0, 2, what));
-        }
+        s.due("height(0, 2, 0)", Sentence.richDesk().height(0, 2, 0), 183);
+        s.due("height(0, 2, 1)", Sentence.richDesk().height(0, 2, 1), 2);
+        s.refusedEach("height(0, 2, %)", (x, what) -> x.height(0, 2, what), -1, 2, LEAST, MOST);
     }
 
     // ---- Promise 20
@@ -274,7 +250,7 @@ public final class TreesBoundsTest {
     private static void joins() {
         Sentence s = CHECK.sentence("Promise 20",
                 "The STEP of a SLOT's tree that joins two points (the least whose cluster has both).");
-        Desk x = View.behind(Sentence::rich);
+        Desk x = Sentence.richDesk();
         int[][] due = {{-1, 1, 2, 2}, {1, -1, 2, 2}, {2, 2, -1, 0}, {2, 2, 0, -1}};
         for (int i = 0; i < 4; i++) {
             for (int j = 0; j < 4; j++) {
@@ -295,22 +271,19 @@ public final class TreesBoundsTest {
 
     private static void joinsWithoutTree() {
         Sentence s = CHECK.sentence("Promise 20", "NONE: there is no tree");
-        s.due("joins(2, 0, 1)", View.behind(Sentence::rich).joins(2, 0, 1), 1);
-        s.refused("joins(3, 0, 1)", x -> x.joins(3, 0, 1));
-        for (int slot : NO_SLOTS) {
-            s.refused("joins(" + slot + ", 0, 1)", x -> x.joins(slot, 0, 1));
-        }
+        s.due("joins(2, 0, 1)", Sentence.richDesk().joins(2, 0, 1), 1);
+        s.refusedWithoutTree("joins(%, 0, 1)", (x, slot) -> x.joins(slot, 0, 1));
     }
 
     private static void joinsPoints() {
         Sentence s = CHECK.sentence("Promise 20", "one is no point of it");
-        s.due("joins(0, 3, 0)", View.behind(Sentence::rich).joins(0, 3, 0), 2);
-        s.due("joins(0, 0, 3)", View.behind(Sentence::rich).joins(0, 0, 3), 2);
+        s.due("joins(0, 3, 0)", Sentence.richDesk().joins(0, 3, 0), 2);
+        s.due("joins(0, 0, 3)", Sentence.richDesk().joins(0, 0, 3), 2);
         for (int i : new int[] {-1, 4, 5, 20, 31, 32, 33, LEAST, MOST}) {
             s.refused("joins(0, 0, " + i + ")", x -> x.joins(0, 0, i));
             s.refused("joins(0, " + i + ", 0)", x -> x.joins(0, i, 0));
         }
-        Desk x = View.behind(Sentence::rich);
+        Desk x = Sentence.richDesk();
         x.points(20);
         s.due("a point of the desk, not of the tree", x.joins(0, 0, 4), -1);
         x.points(0);
@@ -324,7 +297,7 @@ public final class TreesBoundsTest {
 
     private static void joinsBothAreOne() {
         Sentence s = CHECK.sentence("Promise 20", "or both are one.");
-        s.due("joins(0, 2, 3)", View.behind(Sentence::rich).joins(0, 2, 3), 0);
+        s.due("joins(0, 2, 3)", Sentence.richDesk().joins(0, 2, 3), 0);
         for (int i = 0; i < 4; i++) {
             int one = i;
             s.refused("joins(0, " + i + ", " + i + ")", x -> x.joins(0, one, one));
@@ -335,7 +308,7 @@ public final class TreesBoundsTest {
 
     /** Whether the trees of two tables, by GREEDY of one linkage, are the same, asked both ways. */
     private static void alike(Sentence s, String one, String other, int kind, boolean want) {
-        Desk x = deskOf(one);
+        Desk x = Desk.of(one);
         x.greedy(0, kind);
         x.readText(other);
         x.greedy(3, kind);
@@ -352,12 +325,12 @@ public final class TreesBoundsTest {
         alike(s, "0", "0", 0, true);
         alike(s, "1", "1", 0, true);
         alike(s, "2 5", "2 5", 0, true);
-        Desk x = deskOf("4 5 90 91 92 93 2");
+        Desk x = Desk.of("4 5 90 91 92 93 2");
         x.greedy(0, 0);
         x.chain(1, 0);
         s.due("by other ways", x.same(0, 1), true);
         s.due("with itself", x.same(0, 0), true);
-        x = deskOf("3 5 5 5");
+        x = Desk.of("3 5 5 5");
         x.greedy(0, 0);
         x.chain(1, 3);
         s.due("with other ties and linkages", x.same(0, 1), true);
@@ -381,7 +354,7 @@ public final class TreesBoundsTest {
 
     private static void sameInOrder() {
         Sentence s = CHECK.sentence("Promise 21", "the same clusters and HEIGHTS, in order");
-        Desk x = deskOf("5 7 6 9 9 9 5 9 5 9 9");
+        Desk x = Desk.of("5 7 6 9 9 9 5 9 5 9 9");
         x.greedy(0, 1);
         x.chain(1, 1);
         s.due("by greedy", x.steps(0), "1+4#2=18@5/1 2+3#2=12@5/1 0+5#3=19@9/1 6+7#5=31@9/1");
@@ -415,7 +388,7 @@ public final class TreesBoundsTest {
 
     private static void sameWithoutTree() {
         Sentence s = CHECK.sentence("Promise 21", "False, too, without a tree.");
-        s.due("same(2, 2)", View.behind(Sentence::rich).same(2, 2), true);
+        s.due("same(2, 2)", Sentence.richDesk().same(2, 2), true);
         s.refusedAsFalse("same(3, 3)", x -> x.same(3, 3));
         for (int slot = 0; slot <= 2; slot++) {
             int one = slot;
@@ -440,7 +413,7 @@ public final class TreesBoundsTest {
         Sentence s = CHECK.sentence("Promise 22", "OUT is the TEXT of a SLOT's tree: how many bytes.");
         String[][] due = {{"0", ";"}, {"1", "0;"}, {"2 10", "(0,1):10;"}, {"3 1 4 5", "((0,1):1,2):9/2;"}};
         for (String[] d : due) {
-            Desk x = deskOf(d[0]);
+            Desk x = Desk.of(d[0]);
             x.greedy(3, 2);
             x.points(20);
             x.write();
@@ -460,11 +433,8 @@ public final class TreesBoundsTest {
 
     private static void textRefused() {
         Sentence s = CHECK.sentence("Promise 22", "NONE, and OUT stays, without one.");
-        s.due("text(2)", View.behind(Sentence::rich).text(2), 24);
-        s.refused("text(3)", x -> x.text(3));
-        for (int slot : NO_SLOTS) {
-            s.refused("text(" + slot + ")", x -> x.text(slot));
-        }
+        s.due("text(2)", Sentence.richDesk().text(2), 24);
+        s.refusedWithoutTree("text(%)", (x, slot) -> x.text(slot));
         Desk x = new Desk();
         s.due("text(0) of a new object", x.text(0), -1);
         s.due("out(0) then", x.out(0), -1);
@@ -476,7 +446,7 @@ public final class TreesBoundsTest {
 
     private static void order() {
         Sentence s = CHECK.sentence("Promise 23", "The k-th point, from 0 on, of THE ORDER of a SLOT's tree.");
-        Desk x = deskOf("4 9 9 1 1 9 9");
+        Desk x = Desk.of("4 9 9 1 1 9 9");
         x.greedy(0, 0);
         int[] due = {0, 3, 1, 2};
         for (int k = 0; k < 4; k++) {
@@ -484,11 +454,7 @@ public final class TreesBoundsTest {
         }
         for (int n = 1; n <= 20; n++) {
             x = new Desk();
-            x.points(n);
-            for (int i = 1; i < n; i++) {
-                x.place(i, i * (i + 1) / 2, 0);
-            }
-            x.measure(1);
+            x.layRow(n);
             x.greedy(1, 0);
             s.due("the first of " + n, x.order(1, 0), 0);
             s.due("the last of " + n, x.order(1, n - 1), n - 1);
@@ -498,16 +464,11 @@ public final class TreesBoundsTest {
 
     private static void orderRefused() {
         Sentence s = CHECK.sentence("Promise 23", "NONE if there is none such.");
-        s.due("order(0, 0)", View.behind(Sentence::rich).order(0, 0), 0);
-        s.due("order(0, 3)", View.behind(Sentence::rich).order(0, 3), 3);
-        for (int k : new int[] {-1, 4, 19, 20, LEAST, MOST}) {
-            s.refused("order(0, " + k + ")", x -> x.order(0, k));
-        }
-        s.refused("order(3, 0)", x -> x.order(3, 0));
-        for (int slot : NO_SLOTS) {
-            s.refused("order(" + slot + ", 0)", x -> x.order(slot, 0));
-        }
-        Desk x = View.behind(Sentence::rich);
+        s.due("order(0, 0)", Sentence.richDesk().order(0, 0), 0);
+        s.due("order(0, 3)", Sentence.richDesk().order(0, 3), 3);
+        s.refusedEach("order(0, %)", (x, k) -> x.order(0, k), -1, 4, 19, 20, LEAST, MOST);
+        s.refusedWithoutTree("order(%, 0)", (x, slot) -> x.order(slot, 0));
+        Desk x = Sentence.richDesk();
         x.points(20);
         s.due("as many as the desk has, not the tree", x.order(0, 4), -1);
         x.points(0);

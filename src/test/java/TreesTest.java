@@ -25,12 +25,6 @@ public final class TreesTest {
         CHECK.finish();
     }
 
-    private static Desk deskOf(String table) {
-        Desk x = new Desk();
-        x.readText(table);
-        return x;
-    }
-
     private static void smallTrees() {
         for (int n = 0; n <= 2; n++) {
             Desk x = new Desk();
@@ -55,7 +49,7 @@ public final class TreesTest {
             "0+1#2=3@1/1 2+4#3=7@7/2 3+5#4=15@35/4",
         };
         // d10 1, d20 5, d21 2, d30 9, d31 6, d32 10
-        Desk x = deskOf("4 1 5 2 9 6 10");
+        Desk x = Desk.of("4 1 5 2 9 6 10");
         for (int kind = 0; kind <= 4; kind++) {
             CHECK.due("greedy", x.greedy(0, kind), 3);
             CHECK.due("greedy of linkage " + kind, x.steps(0), due[kind]);
@@ -74,15 +68,15 @@ public final class TreesTest {
             CHECK.due("all alike", x.steps(0), "0+1#2=3@0/1 2+3#2=12@0/1 4+5#4=15@0/1");
             CHECK.due("ties", x.tree(0, 1), 2);
         }
-        x = deskOf(TIED);
+        x = Desk.of(TIED);
         x.greedy(0, 0);
         CHECK.due("greedy", x.steps(0), "1+3#2=10@1/1 2+4#3=14@1/1 0+5#4=15@3/1");
         CHECK.due("ties", x.tree(0, 1), 1);
-        x = deskOf("3 9 9 1");
+        x = Desk.of("3 9 9 1");
         x.greedy(0, 0);
         CHECK.due("several, but not the least", x.tree(0, 1), 0);
         // A fraction that is alike a whole number: (1 + 3) / 2 and 2.
-        x = deskOf("4 0 1 3 9 9 2");
+        x = Desk.of("4 0 1 3 9 9 2");
         x.greedy(0, 2);
         CHECK.due("greedy", x.steps(0), "0+1#2=3@0/1 2+3#2=12@2/1 4+5#4=15@11/2");
         CHECK.due("ties", x.tree(0, 1), 1);
@@ -96,25 +90,25 @@ public final class TreesTest {
             CHECK.due("all alike", x.steps(0), "0+1#2=3@0/1 2+3#2=12@0/1 4+5#4=15@0/1");
             CHECK.due("ties", x.tree(0, 1), 4);
         }
-        x = deskOf(TIED);
+        x = Desk.of(TIED);
         x.chain(0, 0);
         CHECK.due("right below", x.steps(0), "2+3#2=12@1/1 1+4#3=14@1/1 0+5#4=15@3/1");
         CHECK.due("ties", x.tree(0, 1), 1);
         // 0 has 2 and 3 alike near, then 1 has 3 and 4, none of them below: the lesser number.
-        x = deskOf("4 9 3 9 3 9 9");
+        x = Desk.of("4 9 3 9 3 9 9");
         x.chain(0, 0);
         CHECK.due("lesser number", x.steps(0), "0+2#2=5@3/1 3+4#3=13@3/1 1+5#4=15@9/1");
         CHECK.due("ties", x.tree(0, 1), 2);
     }
 
     private static void chainOrder() {
-        Desk x = deskOf(TWO_PAIRS);
+        Desk x = Desk.of(TWO_PAIRS);
         x.chain(0, 0);
         x.greedy(1, 0);
         CHECK.due("by heights", x.steps(0), "2+3#2=12@2/1 0+1#2=3@5/1 4+5#4=15@90/1");
         CHECK.due("as greedy", x.steps(1), x.steps(0));
         // Made with heights 5, 5, 2, 90, 90: those that are alike stay as they were made.
-        x = deskOf("6 5 90 90 90 90 5 90 90 90 90 90 90 90 90 2");
+        x = Desk.of("6 5 90 90 90 90 5 90 90 90 90 90 90 90 90 2");
         x.chain(0, 1);
         CHECK.due("alike as made", x.steps(0),
                 "4+5#2=48@2/1 0+1#2=3@5/1 2+3#2=12@5/1 7+8#4=15@90/1 6+9#6=63@90/1");
@@ -147,7 +141,7 @@ public final class TreesTest {
     }
 
     private static void refusedTrees() {
-        Desk x = deskOf(TIED);
+        Desk x = Desk.of(TIED);
         x.greedy(2, 1);
         x.cut(2, 2);
         String steps = x.steps(2);
@@ -168,7 +162,7 @@ public final class TreesTest {
     }
 
     private static void treeStays() {
-        Desk x = deskOf("3 4 6 8");
+        Desk x = Desk.of("3 4 6 8");
         x.greedy(0, 2);
         String steps = x.steps(0);
         CHECK.due("steps", steps, "0+1#2=3@4/1 2+3#3=7@7/1");
@@ -189,7 +183,7 @@ public final class TreesTest {
     }
 
     private static void tree() {
-        Desk x = deskOf(TIED);
+        Desk x = Desk.of(TIED);
         x.chain(3, 0);
         CHECK.due("facts", x.facts(3), "3 1 4 0 1");
         for (int slot : NO_SLOTS) {
@@ -202,7 +196,7 @@ public final class TreesTest {
     }
 
     private static void step() {
-        Desk x = deskOf(TIED);
+        Desk x = Desk.of(TIED);
         x.greedy(1, 0);
         int[] due = {2, 4, 3, 14};
         for (int what = 0; what <= 3; what++) {
@@ -219,7 +213,7 @@ public final class TreesTest {
     }
 
     private static void height() {
-        Desk x = deskOf("3 1 2 2");
+        Desk x = Desk.of("3 1 2 2");
         x.greedy(1, 3);
         CHECK.due("top", x.height(1, 1, 0), 7);
         CHECK.due("bottom", x.height(1, 1, 1), 3);
@@ -231,7 +225,7 @@ public final class TreesTest {
     }
 
     private static void joins() {
-        Desk x = deskOf(TWO_PAIRS);
+        Desk x = Desk.of(TWO_PAIRS);
         x.greedy(0, 0);
         int[][] due = {{2, 3, 0}, {3, 2, 0}, {0, 1, 1}, {1, 0, 1}, {0, 2, 2}, {3, 1, 2}, {1, 1, -1}, {0, 4, -1},
             {4, 0, -1}, {-1, 0, -1}, {0, -1, -1}, {32, 1, -1}, {1, 32, -1}, {Integer.MIN_VALUE, Integer.MAX_VALUE, -1}};
@@ -245,7 +239,7 @@ public final class TreesTest {
     }
 
     private static void same() {
-        Desk x = deskOf(TIED);
+        Desk x = Desk.of(TIED);
         CHECK.due("no trees", x.same(0, 0), false);
         x.greedy(0, 0);
         x.chain(1, 0);
@@ -255,7 +249,7 @@ public final class TreesTest {
         CHECK.due("one without a tree", x.same(2, 0), false);
         CHECK.due("no slot", x.same(0, 4), false);
         CHECK.due("no slot", x.same(-1, 0), false);
-        x = deskOf("3 2 4 5");
+        x = Desk.of("3 2 4 5");
         x.greedy(0, 0);
         x.greedy(1, 1);
         CHECK.due("other heights", x.same(0, 1), false);
@@ -312,7 +306,7 @@ public final class TreesTest {
     }
 
     private static void order() {
-        Desk x = deskOf("3 5 1 6");
+        Desk x = Desk.of("3 5 1 6");
         CHECK.due("no tree", x.order(0, 0), -1);
         x.greedy(0, 0);
         CHECK.due("order", x.order(0), "0 2 1");
