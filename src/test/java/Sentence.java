@@ -73,15 +73,13 @@ final class Sentence {
     /** On the rich desk the call answers NONE, and nothing that a later call shows is another. */
     void refused(String call, ToLongFunction<Desk> asked) {
         due(call, asked.applyAsLong(richDesk()), -1);
-        unchanged(call, RICH, View.of(x -> {
-            rich(x);
-            asked.applyAsLong(x);
-        }));
+        changesOnly("the refused " + call, asked::applyAsLong);
     }
 
     /** Likewise of a call that answers false. */
     void refusedAsFalse(String call, Predicate<Desk> asked) {
-        refused(call, x -> asked.test(x) ? 1 : -1);
+        due(call, asked.test(richDesk()), false);
+        changesOnly("the refused " + call, asked::test);
     }
 
     /** The call is refused with each of these numbers; its name has a % in their place. */
@@ -92,7 +90,9 @@ final class Sentence {
     }
 
     void refusedEachAsFalse(String call, AskedWhether asked, int... numbers) {
-        refusedEach(call, (x, number) -> asked.with(x, number) ? 1 : -1, numbers);
+        for (int number : numbers) {
+            refusedAsFalse(call.replace("%", "" + number), x -> asked.with(x, number));
+        }
     }
 
     /** The call is refused with SLOT 3, which has no tree on the rich desk, and with what is no SLOT. */
@@ -103,28 +103,20 @@ final class Sentence {
     /** On a desk behind a story of its own the call answers NONE, and changes nothing. */
     void refusedBehind(Consumer<Desk> story, String call, ToLongFunction<Desk> asked) {
         due(call, asked.applyAsLong(View.behind(story)), -1);
-        unchanged(call, View.of(story), View.of(x -> {
-            story.accept(x);
-            asked.applyAsLong(x);
-        }));
+        stays("the refused " + call, View.of(story), View.of(story.andThen(asked::applyAsLong)), List.of());
     }
 
     /** On the rich desk the call changes nothing but these parts of the view. */
     void changesOnly(String call, Consumer<Desk> done, String... parts) {
-        Map<String, String> seen = View.of(x -> {
-            rich(x);
-            done.accept(x);
-        });
-        for (String part : RICH.keySet()) {
-            if (!List.of(parts).contains(part)) {
-                due(call + " and " + part, seen.get(part), RICH.get(part));
-            }
-        }
+        Consumer<Desk> story = Sentence::rich;
+        stays(call, RICH, View.of(story.andThen(done)), List.of(parts));
     }
 
-    private void unchanged(String call, Map<String, String> was, Map<String, String> is) {
+    private void stays(String call, Map<String, String> was, Map<String, String> is, List<String> but) {
         for (String part : was.keySet()) {
-            due(part + " behind the refused " + call, is.get(part), was.get(part));
+            if (!but.contains(part)) {
+                due(part + " behind " + call, is.get(part), was.get(part));
+            }
         }
     }
 }
