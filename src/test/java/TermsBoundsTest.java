@@ -437,7 +437,7 @@ public final class TermsBoundsTest {
     }
 
     private static void greedyTies() {
-        Sentence s = CHECK.sentence("GREEDY", "TIES: how often there were several");
+        Sentence s = CHECK.sentence("TIES of GREEDY", "TIES: how often there were several");
         s.due("no points", greedyTies("0", 0), 0);
         s.due("one point", greedyTies("1", 0), 0);
         s.due("one pair", greedyTies("2 0", 0), 0);
@@ -480,7 +480,7 @@ public final class TermsBoundsTest {
     }
 
     private static void chainTies() {
-        Sentence s = CHECK.sentence("CHAIN", "(TIES: how often there were several)");
+        Sentence s = CHECK.sentence("TIES of CHAIN", "(TIES: how often there were several)");
         s.due("no points", chainTies("0", 0), 0);
         s.due("one point", chainTies("1", 0), 0);
         s.due("two points", chainTies("2 0", 0), 0);
